@@ -10,7 +10,7 @@ public final class ChalkStreet {
     private static final int PLAIN = 0, AGAIN = 1, OUT = 2, HOME = 3, BACK = 4, FAR = 5, KINDS = 6;
     private static final int MENDING_KINDS = 4, MOST_NUMBER = 9;
     private static final int OTHER_MOVES = 0, SAME_MOVES = 1, MOVER_WINS = 2, MOVER_LOSES = 3, NOT_ALLOWED = 4;
-    private static final int MOST_DIGITS = 18, MOST_MOVES = 12, FIRST_WON = 100, SECOND_WON = 101;
+    private static final int MOST_DIGITS = 18, MOST_MOVES = 12, FIRST_WON = 100;
     private static final long ROW_END = 1000000000000000000L;
     private static final int BELOW_LOST = -100, BELOW_FAULT = -100;
 
@@ -1196,7 +1196,7 @@ public final class ChalkStreet {
         }
 
         private int followedNext(int street) {
-            if (follows.at(street) != NONE && keeps.at(street) == 0) return NONE;
+            if (keeps.at(street) == 0) return NONE;
             // The lesser side is asked first and the other one must be above it: so of like ones it is the lesser.
             int best = better(street, (street + STREETS - 1) % STREETS);
             best = better(best, (street + 1) % STREETS);

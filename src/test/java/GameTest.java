@@ -11,6 +11,8 @@ public final class GameTest {
         again();
         backAndFar();
         manySteps();
+        stepFive();
+        asTheRulesAre();
         endless();
         mend();
         mendTwo();
@@ -61,6 +63,8 @@ public final class GameTest {
         DUE.is("3 unchanged", x.count(1), 16);
         DUE.is("3 step 5 goes", x.play(5), 11);
         DUE.is("3 step 1 does not", x.play(1), -100);
+        DUE.is("3 the least", x.steps(1), 16);
+        DUE.is("3 the least", x.count(1), 1);
     }
 
     private static void squareTold() {
@@ -156,6 +160,38 @@ public final class GameTest {
         DUE.is("6 LOST as late as can be", x.best(0), 2);
     }
 
+    private static void stepFive() {
+        ChalkStreet x = new ChalkStreet(6);
+        x.steps(17);
+        x.square(5, 3, 0);
+        DUE.is("6 step 5", x.best(0), 5);
+        DUE.is("5 step 5", x.worth(0), 1);
+        DUE.is("10 step 5", x.plays(1, 0), 1);
+        DUE.is("11 step 5", x.play(5), 100);
+    }
+
+    /** Each call reads the rules as they are then, whatever was asked ahead of it. */
+    private static void asTheRulesAre() {
+        ChalkStreet x = new ChalkStreet(0);
+        DUE.is("7 all ENDLESS", x.many(2), 4);
+        x.steps(2);
+        x.square(2, 3, 0);
+        DUE.is("6 step 2", x.best(0), 2);
+        x.square(2, 0, 0);
+        DUE.is("8 the ring of 0 and 2", x.ring(0), 5);
+        x.square(2, 2, 0);
+        DUE.is("7 OUT for 0 alone", x.many(1), 1);
+        DUE.is("7 2 wins by it", x.many(0), 1);
+        DUE.is("9 the ring of 1 and 3", x.mend(0), 12);
+        x.steps(1);
+        DUE.is("9 nothing to mend", x.mend(-1), 0);
+        x.steps(2);
+        DUE.is("9 the ring of 1 and 3 again", x.mend(0), 12);
+        x.square(1, 4, 2);
+        x.square(1, 4, 0);
+        DUE.is("9 by another NUMBER", x.mend(0), 12);
+    }
+
     private static void endless() {
         ChalkStreet x = new ChalkStreet(0);
         x.steps(3);
@@ -230,9 +266,13 @@ public final class GameTest {
         x.square(1, 2, 0);
         DUE.is("10 OUT wins for the other one", x.plays(1, 1), 1);
         DUE.is("10 OUT wins for the other one", x.plays(1, 0), 0);
+        DUE.is("10 none is won behind the end", x.plays(2, 1), 0);
         x.square(1, 1, 0);
         x.square(2, 3, 0);
         DUE.is("10 AGAIN, then HOME", x.plays(2, 0), 1);
+        // 0 1 3 in three moves, then 0 (the first to move) or 1 (the second one still).
+        long[] fourth = {1, 1, 2};
+        for (int what = 0; what < 3; what++) DUE.is("10 the fourth move", x.plays(4, what), fourth[what]);
         int[][] no = {{-1, 0}, {13, 0}, {0, -1}, {0, 3}, {Integer.MAX_VALUE, 0}};
         for (int[] n : no) DUE.is("10 NO", x.plays(n[0], n[1]), ChalkStreet.NO);
     }

@@ -9,6 +9,7 @@ public final class StreetsTest {
         text();
         faults();
         open();
+        afterFaults();
         force();
         firstRule();
         reckoned();
@@ -128,6 +129,22 @@ public final class StreetsTest {
         fault("take 1 > 2;", 7);
         fault("take 1; keep (1 = 1", 19);
         fault("take 1 (", 7);
+        fault("takez 1;", 0);
+        fault("takea 1;", 0);
+        fault("take{ 1;", 4);
+        fault("take` 1;", 4);
+        fault("take 1/", 6);
+        fault("take 1:", 6);
+    }
+
+    private static void afterFaults() {
+        ChalkStreet x = new ChalkStreet(0);
+        for (int i = 0; i < 9; i++) DUE.is("22 fault", read(x, "take 1+1+1+1+1+1+1+1+1+1+1+1+1;"), -131);
+        DUE.is("22 after faults", read(x, "take 7-1;keep 3*3;"), 1);
+        x.force(1);
+        x.telling(0, 0);
+        DUE.is("24 after faults", x.says(0, 0), 6);
+        DUE.is("24 after faults", x.says(0, 1), 9);
     }
 
     private static void open() {
@@ -196,7 +213,11 @@ public final class StreetsTest {
         comesTo("own", 7);
         comesTo("steps", 2);
         comesTo("won + lost + endless", 8);
+        comesTo("won", 4);
+        comesTo("lost", 4);
+        comesTo("endless", 0);
         comesTo("0000", 0);
+        comesTo("1 and 1", 1);
         comesTo("0012", 12);
         comesTo("2+3*4", 14);
         comesTo("(2+3)*4", 20);

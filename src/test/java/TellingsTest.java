@@ -237,11 +237,26 @@ public final class TellingsTest {
         DUE.is("20 not where both are over", y.quarrel(1, 2), 22);
         ChalkStreet z = two(4, 3, new int[][] {{2, 5, 1}}, 3, new int[][] {{2, 5, 2}});
         DUE.is("20 FAR by its NUMBER", z.quarrel(1, 2), 2);
+        // To 7 by 2 and 5, or by 5 and 2.
+        ChalkStreet w = two(10, 18, new int[][] {{7, 2, 0}}, 18, new int[][] {{7, 3, 0}});
+        DUE.is("20 each step of the row", w.quarrel(1, 2), 52);
+    }
+
+    /** Ten squares and step 1: all are AGAIN but one; 0 is AGAIN in one telling and BACK to 9 in the other. */
+    private static ChalkStreet round(int plain) {
+        int[][] first = new int[10][];
+        for (int s = 0; s < 10; s++) first[s] = new int[] {s, s == plain ? 0 : 1, 0};
+        int[][] second = first.clone();
+        second[0] = new int[] {0, 4, 1};
+        return two(10, 1, first, 1, second);
     }
 
     private static void quarrelFar() {
-        // By step 1 alone nine moves come to square 9; to come round once more takes the stone ten.
         ChalkStreet x = two(10, 1, new int[][] {{9, 3, 0}}, 1, new int[][] {{9, 2, 0}});
         DUE.is("20 nine", x.quarrel(1, 2), 111111111L);
+        // By ten moves one stone lies at 0 and the other one stays at 9 from then on; the PLAIN one comes in so many.
+        DUE.is("20 eighteen", round(8).quarrel(1, 2), 111111111111111111L);
+        DUE.is("20 nineteen", round(9).quarrel(1, 2), -2);
+        DUE.is("20 seventeen", round(7).quarrel(2, 1), 11111111111111111L);
     }
 }
