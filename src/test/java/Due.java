@@ -1,3 +1,6 @@
+import java.util.Set;
+import java.util.TreeSet;
+
 /** Counts answers against those that are due, and ends the program with 1 if one was not. */
 final class Due {
     private static final int MOST_TOLD = 20;
@@ -5,6 +8,7 @@ final class Due {
     private final String name;
     private String sentence = "";
     private int sentences = 0;
+    private final Set<Integer> promises = new TreeSet<>();
     private int right = 0;
     private int wrong = 0;
 
@@ -16,6 +20,12 @@ final class Due {
     void by(String sentence) {
         this.sentence = " [" + sentence + "]";
         sentences++;
+        promises.add(Integer.parseInt(sentence.substring(0, sentence.indexOf(':'))));
+    }
+
+    /** Each of these promises has a sentence here. */
+    void covers(int first, int last) {
+        for (int promise = first; promise <= last; promise++) holds("promise " + promise, promises.contains(promise));
     }
 
     void is(String call, long got, long want) {

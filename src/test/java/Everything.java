@@ -1,7 +1,5 @@
 import java.util.ArrayList;
 import java.util.List;
-import java.util.function.Supplier;
-import java.util.function.ToLongFunction;
 
 /** All that an object can be asked, call by call; the object is spent by it. */
 final class Everything {
@@ -28,12 +26,10 @@ final class Everything {
         taken();
     }
 
-    /** The refused call is made of one of two like objects alone: then both must answer alike, whatever is asked. */
-    static void refused(Due due, Supplier<ChalkStreet> scene, String call, ToLongFunction<ChalkStreet> refused, long want) {
-        ChalkStreet asked = scene.get();
-        due.is(call, refused.applyAsLong(asked), want);
+    /** Whether one object answers as the other one, after a call that the other one was not asked. */
+    static void alike(Due due, String call, ChalkStreet asked, ChalkStreet unasked) {
         Everything one = new Everything(asked);
-        Everything other = new Everything(scene.get());
+        Everything other = new Everything(unasked);
         due.is("how much can be asked after " + call, one.answers.size(), other.answers.size());
         for (int i = 0; i < one.answers.size() && i < other.answers.size(); i++) {
             due.is(one.calls.get(i) + " after " + call, one.answers.get(i), other.answers.get(i));

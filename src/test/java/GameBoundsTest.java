@@ -1,8 +1,7 @@
-import java.util.function.ToLongFunction;
-
 /** Promises 1 to 11: each sentence that names a bound, just inside it and just outside. */
 public final class GameBoundsTest {
     private static final Due DUE = new Due("GameBoundsTest");
+    private static final Refused REFUSED = new Refused(DUE);
     private static final int MIN = Integer.MIN_VALUE, MAX = Integer.MAX_VALUE;
 
     public static void main(String[] args) {
@@ -51,21 +50,12 @@ public final class GameBoundsTest {
         playNotAllowed();
         playOver();
         playRefused();
+        DUE.covers(1, 11);
         DUE.end();
     }
 
-    private static void refused(String call, ToLongFunction<ChalkStreet> refused, long want) {
-        Everything.refused(DUE, Scenes::some, call, refused, want);
-        Everything.refused(DUE, Scenes::full, call + " of a full one", refused, want);
-    }
-
-    /** A ring of so many squares. */
-    private static ChalkStreet of(int n) {
-        return new ChalkStreet(n - 4);
-    }
-
     private static ChalkStreet allOf(int n, int kind) {
-        ChalkStreet x = of(n);
+        ChalkStreet x = Scenes.ring(n);
         for (int s = 0; s < n; s++) x.square(s, kind, 0);
         return x;
     }
@@ -90,7 +80,7 @@ public final class GameBoundsTest {
     private static void theSetAtFirst() {
         DUE.by("1: THE SET at first: all PLAIN (NUMBERS 0), STEP 1 alone");
         for (int n = 4; n <= 10; n++) {
-            ChalkStreet x = of(n);
+            ChalkStreet x = Scenes.ring(n);
             for (int s = 0; s < n; s++) {
                 DUE.is("KIND of " + s, x.squareTold(s, 0), 0);
                 DUE.is("NUMBER of " + s, x.squareTold(s, 1), 0);
@@ -103,7 +93,7 @@ public final class GameBoundsTest {
 
     private static void nothingElseAtFirst() {
         DUE.by("1: YEAR 0; no TELLINGS; STREETS have none; TEXT 0 is THE RULE; missing SHEETS; 20 MARBLES each");
-        ChalkStreet x = of(7);
+        ChalkStreet x = Scenes.ring(7);
         int[] counts = {7, 1, 0, 1, 0, 0, 0, 0};
         for (int what = 0; what < 8; what++) DUE.is("count(" + what + ")", x.count(what), counts[what]);
         for (int s = 0; s < 8; s++) DUE.is("has(" + s + ")", x.has(s), -1);
@@ -116,10 +106,10 @@ public final class GameBoundsTest {
 
     private static void theLastCall() {
         DUE.by("1: an object is used for at most 512 calls after it has been made");
-        ChalkStreet x = of(4);
+        ChalkStreet x = Scenes.ring(4);
         for (int i = 1; i < 512; i++) x.square(i % 4, i % 6, i % 10);
         DUE.is("the 512th call", x.squareTold(3, 1), 511 % 10);
-        ChalkStreet y = of(10);
+        ChalkStreet y = Scenes.ring(10);
         for (int i = 1; i < 512; i++) y.steps(i % 31 + 1);
         DUE.is("the 512th call", y.play(6), -100);
     }
@@ -129,7 +119,7 @@ public final class GameBoundsTest {
     private static void squareOfTheRing() {
         DUE.by("2: SQUARES 0 .. n - 1");
         for (int n = 4; n <= 10; n++) {
-            ChalkStreet x = of(n);
+            ChalkStreet x = Scenes.ring(n);
             DUE.is("the first of " + n, x.square(0, 1, 5), 0);
             DUE.is("the first of " + n + " again", x.square(0, 2, 6), 1);
             DUE.is("the last of " + n, x.square(n - 1, 3, 7), 0);
@@ -142,7 +132,7 @@ public final class GameBoundsTest {
 
     private static void squareKind() {
         DUE.by("2: KINDS 0 .. 5");
-        ChalkStreet x = of(4);
+        ChalkStreet x = Scenes.ring(4);
         for (int kind = 0; kind < 6; kind++) {
             DUE.is("square(1, " + kind + ", 0)", x.square(1, kind, 0), kind == 0 ? 0 : kind - 1);
             DUE.is("KIND " + kind, x.squareTold(1, 0), kind);
@@ -153,7 +143,7 @@ public final class GameBoundsTest {
 
     private static void squareNumber() {
         DUE.by("2: a NUMBER (0 .. 9)");
-        ChalkStreet x = of(4);
+        ChalkStreet x = Scenes.ring(4);
         for (int number = 0; number < 10; number++) {
             DUE.is("square(3, 5, " + number + ")", x.square(3, 5, number), number == 0 ? 0 : 5);
             DUE.is("NUMBER " + number, x.squareTold(3, 1), number);
@@ -165,19 +155,19 @@ public final class GameBoundsTest {
 
     private static void squareRefused() {
         DUE.by("2: BAD; refusals change nothing");
-        refused("square(-1, 3, 3)", x -> x.square(-1, 3, 3), -2);
-        refused("square(n, 3, 3)", x -> x.square(x.count(0), 3, 3), -2);
-        refused("square(0, -1, 3)", x -> x.square(0, -1, 3), -2);
-        refused("square(0, 6, 3)", x -> x.square(0, 6, 3), -2);
-        refused("square(0, 3, -1)", x -> x.square(0, 3, -1), -2);
-        refused("square(0, 3, 10)", x -> x.square(0, 3, 10), -2);
+        REFUSED.ofBoth("square(-1, 3, 3)", x -> x.square(-1, 3, 3), -2);
+        REFUSED.ofBoth("square(n, 3, 3)", x -> x.square(x.count(0), 3, 3), -2);
+        REFUSED.ofBoth("square(0, -1, 3)", x -> x.square(0, -1, 3), -2);
+        REFUSED.ofBoth("square(0, 6, 3)", x -> x.square(0, 6, 3), -2);
+        REFUSED.ofBoth("square(0, 3, -1)", x -> x.square(0, 3, -1), -2);
+        REFUSED.ofBoth("square(0, 3, 10)", x -> x.square(0, 3, 10), -2);
     }
 
     // ---- 3, 4
 
     private static void stepsBits() {
         DUE.by("3: STEPS (1 .. 31): bits 0 .. 4 for steps 1 .. 5, one at least");
-        ChalkStreet x = of(10);
+        ChalkStreet x = Scenes.ring(10);
         int before = 1;
         for (int set = 1; set < 32; set++) {
             DUE.is("steps(" + set + ")", x.steps(set), before);
@@ -193,24 +183,24 @@ public final class GameBoundsTest {
 
     private static void stepsRefused() {
         DUE.by("3: BAD; refusals change nothing");
-        refused("steps(0)", x -> x.steps(0), -2);
-        refused("steps(32)", x -> x.steps(32), -2);
-        refused("steps(-1)", x -> x.steps(-1), -2);
+        REFUSED.ofBoth("steps(0)", x -> x.steps(0), -2);
+        REFUSED.ofBoth("steps(32)", x -> x.steps(32), -2);
+        REFUSED.ofBoth("steps(-1)", x -> x.steps(-1), -2);
     }
 
     private static void squareToldWhat() {
         DUE.by("4: 0 KIND, 1 NUMBER. BAD");
-        ChalkStreet x = of(10);
+        ChalkStreet x = Scenes.ring(10);
         x.square(0, 5, 9);
         x.square(9, 4, 8);
         DUE.is("squareTold(0, 0)", x.squareTold(0, 0), 5);
         DUE.is("squareTold(0, 1)", x.squareTold(0, 1), 9);
         DUE.is("squareTold(9, 0)", x.squareTold(9, 0), 4);
         DUE.is("squareTold(9, 1)", x.squareTold(9, 1), 8);
-        refused("squareTold(-1, 0)", y -> y.squareTold(-1, 0), -2);
-        refused("squareTold(n, 0)", y -> y.squareTold(y.count(0), 0), -2);
-        refused("squareTold(0, -1)", y -> y.squareTold(0, -1), -2);
-        refused("squareTold(0, 2)", y -> y.squareTold(0, 2), -2);
+        REFUSED.ofBoth("squareTold(-1, 0)", y -> y.squareTold(-1, 0), -2);
+        REFUSED.ofBoth("squareTold(n, 0)", y -> y.squareTold(y.count(0), 0), -2);
+        REFUSED.ofBoth("squareTold(0, -1)", y -> y.squareTold(0, -1), -2);
+        REFUSED.ofBoth("squareTold(0, 2)", y -> y.squareTold(0, 2), -2);
     }
 
     // ---- what a MOVE does
@@ -218,7 +208,7 @@ public final class GameBoundsTest {
     private static void moveGoesRound() {
         DUE.by("11: a MOVE by a step d from SQUARE s comes to s + d modulo n");
         for (int n = 4; n <= 10; n++) {
-            ChalkStreet x = of(n);
+            ChalkStreet x = Scenes.ring(n);
             x.steps(31);
             long row = 0;
             for (int s = 0; s < n; s++) {
@@ -236,7 +226,7 @@ public final class GameBoundsTest {
     private static void backGoesRound() {
         DUE.by("11: BACK: it lies NUMBER squares behind c (modulo n)");
         for (int n = 4; n <= 10; n++) {
-            ChalkStreet x = of(n);
+            ChalkStreet x = Scenes.ring(n);
             for (int number = 0; number < 10; number++) {
                 x.square(1, 4, number);
                 int lies = 1;
@@ -249,7 +239,7 @@ public final class GameBoundsTest {
     private static void noKindBehind() {
         DUE.by("11: BACK: as AGAIN, no KIND counts there");
         for (int kind = 0; kind < 6; kind++) {
-            ChalkStreet x = of(4);
+            ChalkStreet x = Scenes.ring(4);
             x.steps(31);
             x.square(0, kind, 0);
             x.square(1, 4, 1);
@@ -264,7 +254,7 @@ public final class GameBoundsTest {
     private static void farAboveItsNumber() {
         DUE.by("11: FAR: as HOME, if it came there by a step above its NUMBER; else as PLAIN");
         for (int d = 1; d <= 5; d++) {
-            ChalkStreet x = of(10);
+            ChalkStreet x = Scenes.ring(10);
             x.steps(31);
             for (int number = 0; number < 10; number++) {
                 x.square(d, 5, number);
@@ -282,7 +272,7 @@ public final class GameBoundsTest {
     private static void toldWonOrLostInOne() {
         DUE.by("5: k WON in k, -100 less k LOST in k; at once (1)");
         for (int n = 4; n <= 10; n++) {
-            ChalkStreet x = of(n);
+            ChalkStreet x = Scenes.ring(n);
             x.square(0, 3, 0);
             DUE.is("ahead of HOME", x.worth(n - 1), 1);
             x.square(0, 2, 0);
@@ -296,7 +286,7 @@ public final class GameBoundsTest {
 
     private static void longestGames() {
         DUE.by("5: WON in k moves, LOST in k (of both together)");
-        ChalkStreet x = of(10);
+        ChalkStreet x = Scenes.ring(10);
         x.square(0, 3, 0);
         for (int s = 0; s < 10; s++) DUE.is("HOME at 0: worth(" + s + ")", x.worth(s), s % 2 == 1 ? 10 - s : s - 110);
         ChalkStreet y = allOf(10, 1);
@@ -309,7 +299,7 @@ public final class GameBoundsTest {
 
     private static void fewestAndMost() {
         DUE.by("5: WON: as few as can be; LOST: as many as can be, the most of 1 and 1 more than each");
-        ChalkStreet x = of(8);
+        ChalkStreet x = Scenes.ring(8);
         x.steps(3);
         x.square(4, 3, 0);
         DUE.is("at once", x.worth(3), 1);
@@ -327,10 +317,10 @@ public final class GameBoundsTest {
 
     private static void worthRefused() {
         DUE.by("5: BAD (-2)");
-        refused("worth(-1)", x -> x.worth(-1), -2);
-        refused("worth(n)", x -> x.worth(x.count(0)), -2);
-        refused("worth(MIN)", x -> x.worth(MIN), -2);
-        refused("worth(MAX)", x -> x.worth(MAX), -2);
+        REFUSED.ofBoth("worth(-1)", x -> x.worth(-1), -2);
+        REFUSED.ofBoth("worth(n)", x -> x.worth(x.count(0)), -2);
+        REFUSED.ofBoth("worth(MIN)", x -> x.worth(MIN), -2);
+        REFUSED.ofBoth("worth(MAX)", x -> x.worth(MAX), -2);
     }
 
     // ---- 6, 7
@@ -364,10 +354,10 @@ public final class GameBoundsTest {
 
     private static void bestRefused() {
         DUE.by("6: BAD");
-        refused("best(-1)", x -> x.best(-1), -2);
-        refused("best(n)", x -> x.best(x.count(0)), -2);
-        refused("best(MIN)", x -> x.best(MIN), -2);
-        refused("best(MAX)", x -> x.best(MAX), -2);
+        REFUSED.ofBoth("best(-1)", x -> x.best(-1), -2);
+        REFUSED.ofBoth("best(n)", x -> x.best(x.count(0)), -2);
+        REFUSED.ofBoth("best(MIN)", x -> x.best(MIN), -2);
+        REFUSED.ofBoth("best(MAX)", x -> x.best(MAX), -2);
     }
 
     private static void manyOf(String what, ChalkStreet x, int won, int lost, int endless) {
@@ -379,7 +369,7 @@ public final class GameBoundsTest {
     private static void manyNoneAndAll() {
         DUE.by("7: how many SQUARES are (0) WON, (1) LOST, (2) ENDLESS");
         for (int n = 4; n <= 10; n++) {
-            manyOf("PLAIN " + n, of(n), 0, 0, n);
+            manyOf("PLAIN " + n, Scenes.ring(n), 0, 0, n);
             manyOf("HOME " + n, allOf(n, 3), n, 0, 0);
             manyOf("OUT " + n, allOf(n, 2), 0, n, 0);
         }
@@ -387,9 +377,9 @@ public final class GameBoundsTest {
 
     private static void manyRefused() {
         DUE.by("7: BAD");
-        refused("many(-1)", x -> x.many(-1), -2);
-        refused("many(3)", x -> x.many(3), -2);
-        refused("many(MIN)", x -> x.many(MIN), -2);
+        REFUSED.ofBoth("many(-1)", x -> x.many(-1), -2);
+        REFUSED.ofBoth("many(3)", x -> x.many(3), -2);
+        REFUSED.ofBoth("many(MIN)", x -> x.many(MIN), -2);
     }
 
     // ---- 8
@@ -397,7 +387,7 @@ public final class GameBoundsTest {
     private static void ringOfOneAndOfAll() {
         DUE.by("8: the SQUARES (bits) that come again and again");
         for (int n = 4; n <= 10; n++) {
-            ChalkStreet x = of(n);
+            ChalkStreet x = Scenes.ring(n);
             for (int s = 0; s < n; s++) DUE.is("all " + n, x.ring(s), (1 << n) - 1);
             x.square(0, 4, 1);
             for (int s = 0; s < n; s++) DUE.is("the last of " + n + " alone", x.ring(s), 1 << n - 1);
@@ -405,14 +395,14 @@ public final class GameBoundsTest {
             x.square(1, 4, 1);
             for (int s = 0; s < n; s++) DUE.is("the first of " + n + " alone", x.ring(s), 1);
         }
-        ChalkStreet x = of(10);
+        ChalkStreet x = Scenes.ring(10);
         x.square(0, 4, 9);
         DUE.is("BACK by 9 is on by 1", x.ring(4), 1023 - 1);
     }
 
     private static void ringOfNone() {
         DUE.by("8: NONE: the SQUARE isn't ENDLESS");
-        ChalkStreet x = of(4);
+        ChalkStreet x = Scenes.ring(4);
         x.square(1, 4, 1);
         x.square(3, 2, 0);
         DUE.is("ENDLESS", x.ring(0), 1);
@@ -424,10 +414,10 @@ public final class GameBoundsTest {
 
     private static void ringRefused() {
         DUE.by("8: BAD");
-        refused("ring(-1)", x -> x.ring(-1), -2);
-        refused("ring(n)", x -> x.ring(x.count(0)), -2);
-        refused("ring(MIN)", x -> x.ring(MIN), -2);
-        refused("ring(MAX)", x -> x.ring(MAX), -2);
+        REFUSED.ofBoth("ring(-1)", x -> x.ring(-1), -2);
+        REFUSED.ofBoth("ring(n)", x -> x.ring(x.count(0)), -2);
+        REFUSED.ofBoth("ring(MIN)", x -> x.ring(MIN), -2);
+        REFUSED.ofBoth("ring(MAX)", x -> x.ring(MAX), -2);
     }
 
     // ---- 9
@@ -441,14 +431,14 @@ public final class GameBoundsTest {
 
     /** From each square ahead of one of these one comes back to it for ever: so many rounds of one square each. */
     private static ChalkStreet rounds(int n, int many) {
-        ChalkStreet x = of(n);
+        ChalkStreet x = Scenes.ring(n);
         for (int i = 0; i < many; i++) x.square(2 * i + 1, 4, 1);
         return x;
     }
 
     private static void mendByNone() {
         DUE.by("9: none, if none is now");
-        ChalkStreet x = of(4);
+        ChalkStreet x = Scenes.ring(4);
         mendIs("all PLAIN", x, 1, 2, -1);
         x.square(3, 3, 0);
         mendIs("one HOME", x, 0, -1, -1);
@@ -460,7 +450,7 @@ public final class GameBoundsTest {
         ChalkStreet x = rounds(10, 1);
         x.square(3, 3, 0);
         mendIs("one round of one and HOME", x, 1, 10, -1);
-        mendIs("all PLAIN", of(10), 1, 2, -1);
+        mendIs("all PLAIN", Scenes.ring(10), 1, 2, -1);
     }
 
     private static void mendByTwo() {
@@ -489,7 +479,7 @@ public final class GameBoundsTest {
         DUE.by("9: another KIND of 0 .. 3 than they are (NUMBER as it is)");
         for (int kind = 0; kind < 6; kind++) {
             // One round of all, which nothing but OUT or HOME ends, at 0 as well as elsewhere.
-            ChalkStreet x = of(4);
+            ChalkStreet x = Scenes.ring(4);
             x.square(0, kind, 9);
             x.square(1, 4, 0);
             x.square(2, 1, 0);
@@ -503,12 +493,12 @@ public final class GameBoundsTest {
         y.square(1, 0, 1);
         DUE.is("nothing is mended by telling it", y.mend(-1), 0);
         // Found by trying each change: FAR at 0 (of the first) and at 2 (of the second) would mend as well.
-        ChalkStreet z = of(9);
+        ChalkStreet z = Scenes.ring(9);
         z.steps(28);
         z.square(0, 2, 3);
         z.square(5, 1, 3);
         mendIs("HOME at 2, not FAR at 0", z, 1, 23, -1);
-        ChalkStreet w = of(6);
+        ChalkStreet w = Scenes.ring(6);
         w.steps(5);
         w.square(2, 4, 1);
         w.square(5, 1, 2);
@@ -523,15 +513,15 @@ public final class GameBoundsTest {
     private static void mendAsTheRulesAre() {
         DUE.by("9: so that no SQUARE is ENDLESS, by THE SET as it is then");
         for (int n = 4; n <= 10; n++) {
-            ChalkStreet x = of(n);
+            ChalkStreet x = Scenes.ring(n);
             for (int i = 0; i < 30; i++) {
                 change(x, i);
-                ChalkStreet fresh = of(n);
+                ChalkStreet fresh = Scenes.ring(n);
                 for (int k = 0; k <= i; k++) change(fresh, k);
                 for (int k = -1; k < 2; k++) DUE.is("mend(" + k + ") as of a fresh one", x.mend(k), fresh.mend(k));
             }
         }
-        ChalkStreet y = of(10);
+        ChalkStreet y = Scenes.ring(10);
         for (int s = 0; s < 10; s++) y.square(s, s % 5 == 0 ? 4 : 0, 0);
         mendIs("BACK by 0 at 0 and 5", y, 1, 2, -1);
         for (int s = 0; s < 10; s++) y.square(s, s % 5 == 0 ? 4 : 0, 1);
@@ -540,7 +530,7 @@ public final class GameBoundsTest {
 
     private static void mendOfLikeOnes() {
         DUE.by("9: that of which the first SQUARE is least, then its KIND, then the second SQUARE, then its KIND");
-        ChalkStreet x = of(4);
+        ChalkStreet x = Scenes.ring(4);
         DUE.is("OUT at 0 ahead of HOME", x.mend(0), 2);
         x.square(0, 4, 1);
         DUE.is("BACK at 0 to OUT", x.mend(0), 2);
@@ -554,7 +544,7 @@ public final class GameBoundsTest {
     private static void mendEndmost() {
         DUE.by("9: change i as 10 * SQUARE + KIND");
         // By step 5 there are five rounds of two squares, s and s + 5; BACK by 5 makes one of a single square.
-        ChalkStreet x = of(10);
+        ChalkStreet x = Scenes.ring(10);
         x.steps(16);
         for (int s = 2; s < 7; s++) x.square(s, 3, 0);
         x.square(0, 4, 5);
@@ -562,7 +552,7 @@ public final class GameBoundsTest {
         mendIs("BACK at 0 and 1", x, 2, 0, 10);
         x.square(1, 3, 0);
         mendIs("BACK at 0", x, 1, 0, -1);
-        ChalkStreet y = of(10);
+        ChalkStreet y = Scenes.ring(10);
         y.steps(16);
         for (int s = 0; s < 3; s++) y.square(s, 3, 0);
         y.square(8, 4, 5);
@@ -577,7 +567,7 @@ public final class GameBoundsTest {
         y.square(4, 0, 0);
         mendIs("BACK at 9, PLAIN at 4", y, 1, 92, -1);
         // Found by trying each change: by more steps than one an OUT can be gone round, a HOME can't.
-        ChalkStreet z = of(10);
+        ChalkStreet z = Scenes.ring(10);
         z.steps(12);
         z.square(8, 1, 0);
         mendIs("HOME at 9", z, 1, 93, -1);
@@ -589,11 +579,11 @@ public final class GameBoundsTest {
 
     private static void mendNoneSuch() {
         DUE.by("9: NONE: none such");
-        for (int i : new int[] {-3, -2, 1, 2, 3, 9, MIN, MAX}) DUE.is("mend(" + i + ") of one", of(4).mend(i), -1);
+        for (int i : new int[] {-3, -2, 1, 2, 3, 9, MIN, MAX}) DUE.is("mend(" + i + ") of one", Scenes.ring(4).mend(i), -1);
         for (int i : new int[] {-2, 2, 3, MIN, MAX}) DUE.is("mend(" + i + ") of two", rounds(10, 2).mend(i), -1);
-        refused("mend(-2)", x -> x.mend(-2), -1);
-        refused("mend(2)", x -> x.mend(2), -1);
-        refused("mend(MIN)", x -> x.mend(MIN), -1);
+        REFUSED.ofBoth("mend(-2)", x -> x.mend(-2), -1);
+        REFUSED.ofBoth("mend(2)", x -> x.mend(2), -1);
+        REFUSED.ofBoth("mend(MIN)", x -> x.mend(MIN), -1);
     }
 
     // ---- 10
@@ -622,7 +612,7 @@ public final class GameBoundsTest {
 
     private static void playsOfTwelve() {
         DUE.by("10: all rows of m allowed steps that can be made");
-        ChalkStreet x = of(10);
+        ChalkStreet x = Scenes.ring(10);
         x.steps(31);
         playsOf("all PLAIN", x, 12, 0, 0, 244140625L);
         playsOf("all PLAIN", x, 11, 0, 0, 48828125L);
@@ -630,14 +620,14 @@ public final class GameBoundsTest {
         y.square(0, 0, 0);
         y.square(2, 3, 0);
         playsOf("AGAIN till HOME", y, 2, 1, 0, 0);
-        ChalkStreet z = of(4);
+        ChalkStreet z = Scenes.ring(4);
         z.steps(2);
         playsOf("one row", z, 12, 0, 0, 1);
     }
 
     private static void playsOverAhead() {
         DUE.by("10: the game isn't over ahead of the last one");
-        ChalkStreet x = of(10);
+        ChalkStreet x = Scenes.ring(10);
         x.square(9, 3, 0);
         playsOf("HOME at 9", x, 8, 0, 0, 1);
         playsOf("HOME at 9", x, 9, 1, 0, 0);
@@ -653,19 +643,19 @@ public final class GameBoundsTest {
 
     private static void playsRefused() {
         DUE.by("10: NO: m, what");
-        refused("plays(-1, 0)", x -> x.plays(-1, 0), ChalkStreet.NO);
-        refused("plays(13, 0)", x -> x.plays(13, 0), ChalkStreet.NO);
-        refused("plays(0, -1)", x -> x.plays(0, -1), ChalkStreet.NO);
-        refused("plays(12, 3)", x -> x.plays(12, 3), ChalkStreet.NO);
-        refused("plays(MAX, 0)", x -> x.plays(MAX, 0), ChalkStreet.NO);
-        refused("plays(MIN, MIN)", x -> x.plays(MIN, MIN), ChalkStreet.NO);
+        REFUSED.ofBoth("plays(-1, 0)", x -> x.plays(-1, 0), ChalkStreet.NO);
+        REFUSED.ofBoth("plays(13, 0)", x -> x.plays(13, 0), ChalkStreet.NO);
+        REFUSED.ofBoth("plays(0, -1)", x -> x.plays(0, -1), ChalkStreet.NO);
+        REFUSED.ofBoth("plays(12, 3)", x -> x.plays(12, 3), ChalkStreet.NO);
+        REFUSED.ofBoth("plays(MAX, 0)", x -> x.plays(MAX, 0), ChalkStreet.NO);
+        REFUSED.ofBoth("plays(MIN, MIN)", x -> x.plays(MIN, MIN), ChalkStreet.NO);
     }
 
     // ---- 11
 
     private static void playEnds() {
         DUE.by("11: 0 .. 9 the first player is to move, 10 .. 19 the second one is; 100 the first has won, 101 the second");
-        ChalkStreet x = of(10);
+        ChalkStreet x = Scenes.ring(10);
         DUE.is("no step", x.play(0), 0);
         DUE.is("the second one at 9", x.play(111111111L), 19);
         DUE.is("the first one at 0", x.play(1111111111L), 0);
@@ -686,7 +676,7 @@ public final class GameBoundsTest {
 
     private static void playZeroEnds() {
         DUE.by("11: a 0 ends it");
-        ChalkStreet x = of(10);
+        ChalkStreet x = Scenes.ring(10);
         x.square(2, 3, 0);
         DUE.is("0 behind 1", x.play(1), 11);
         DUE.is("0 ahead of one that isn't allowed", x.play(901), 11);
@@ -698,7 +688,7 @@ public final class GameBoundsTest {
 
     private static void playDigits() {
         DUE.by("11: 18 digits at most; BAD: more than 18 digits");
-        ChalkStreet x = of(10);
+        ChalkStreet x = Scenes.ring(10);
         DUE.is("17 digits", x.play(11111111111111111L), 17);
         DUE.is("18 digits", x.play(111111111111111111L), 8);
         DUE.is("19 digits", x.play(1111111111111111111L), -2);
@@ -710,7 +700,7 @@ public final class GameBoundsTest {
 
     private static void playNotAllowed() {
         DUE.by("11: -100 less the place of the first step that can't be made (not allowed)");
-        ChalkStreet x = of(10);
+        ChalkStreet x = Scenes.ring(10);
         x.steps(2 + 8);
         DUE.is("place 0", x.play(1), -100);
         DUE.is("place 0 of many", x.play(111), -100);
@@ -722,7 +712,7 @@ public final class GameBoundsTest {
 
     private static void playOver() {
         DUE.by("11: -100 less the place of the first step that can't be made (the game is over)");
-        ChalkStreet x = of(10);
+        ChalkStreet x = Scenes.ring(10);
         x.square(1, 3, 0);
         DUE.is("place 1", x.play(11), -101);
         DUE.is("a step that isn't allowed, too", x.play(91), -101);
@@ -731,7 +721,7 @@ public final class GameBoundsTest {
         y.square(7, 2, 0);
         DUE.is("OUT by place 6", y.play(1111111), 101);
         DUE.is("place 7", y.play(11111111), -107);
-        ChalkStreet z = of(10);
+        ChalkStreet z = Scenes.ring(10);
         z.steps(3);
         z.square(9, 3, 0);
         DUE.is("over by the 18th", z.play(111111111211111111L), 101);
@@ -743,9 +733,9 @@ public final class GameBoundsTest {
 
     private static void playRefused() {
         DUE.by("11: BAD: below 0, more than 18 digits");
-        refused("play(-1)", x -> x.play(-1), -2);
-        refused("play(Long.MIN_VALUE)", x -> x.play(Long.MIN_VALUE), -2);
-        refused("play(10^18)", x -> x.play(1000000000000000000L), -2);
-        refused("play(9)", x -> x.play(9), -100);
+        REFUSED.ofBoth("play(-1)", x -> x.play(-1), -2);
+        REFUSED.ofBoth("play(Long.MIN_VALUE)", x -> x.play(Long.MIN_VALUE), -2);
+        REFUSED.ofBoth("play(10^18)", x -> x.play(1000000000000000000L), -2);
+        REFUSED.ofBoth("play(9)", x -> x.play(9), -100);
     }
 }

@@ -1,8 +1,7 @@
-import java.util.function.ToLongFunction;
-
 /** Promises 31 to 35: each sentence that names a bound, just inside it and just outside. */
 public final class HostBoundsTest {
     private static final Due DUE = new Due("HostBoundsTest");
+    private static final Refused REFUSED = new Refused(DUE);
     private static final int MIN = Integer.MIN_VALUE, MAX = Integer.MAX_VALUE;
 
     public static void main(String[] args) {
@@ -30,15 +29,8 @@ public final class HostBoundsTest {
         squaresRefused();
         takenKinds();
         takenRefused();
+        DUE.covers(31, 35);
         DUE.end();
-    }
-
-    private static void refused(String call, ToLongFunction<ChalkStreet> refused, long want) {
-        Everything.refused(DUE, Scenes::some, call, refused, want);
-    }
-
-    private static ChalkStreet of(int n) {
-        return new ChalkStreet(n - 4);
     }
 
     private static void fill(ChalkStreet x, int sheet, int... items) {
@@ -63,7 +55,7 @@ public final class HostBoundsTest {
 
     private static void sheetSheets() {
         DUE.by("31: SHEETS 0 .. 3; BAD: no such SHEET");
-        ChalkStreet x = of(4);
+        ChalkStreet x = Scenes.ring(4);
         for (int s = 0; s < 4; s++) {
             DUE.is("missing", x.cell(s, 0, 1), -11);
             DUE.is("sheet(" + s + ", 0, 1)", x.sheet(s, 0, 1), 1);
@@ -79,7 +71,7 @@ public final class HostBoundsTest {
 
     private static void sheetSorts() {
         DUE.by("31: of sort 0 bytes, 1 shorts, 2 ints, or missing (sort -1); BAD: no such sort");
-        ChalkStreet x = of(4);
+        ChalkStreet x = Scenes.ring(4);
         for (int sort = 0; sort < 3; sort++) {
             DUE.is("sheet(0, " + sort + ", 2)", x.sheet(0, sort, 2), 1);
             for (int other = 0; other < 3; other++) {
@@ -96,7 +88,7 @@ public final class HostBoundsTest {
     private static void sheetSizes() {
         DUE.by("31: BAD: n above 40; -14: a size below 0");
         for (int sort = 0; sort < 3; sort++) {
-            ChalkStreet x = of(4);
+            ChalkStreet x = Scenes.ring(4);
             for (int n : new int[] {0, 1, 2, 39, 40}) {
                 DUE.is("sheet(0, " + sort + ", " + n + ")", x.sheet(0, sort, n), 1);
                 if (n > 0) DUE.is("the first of " + n, x.cell(0, 0, 9), 1);
@@ -113,7 +105,7 @@ public final class HostBoundsTest {
     private static void sheetMissing() {
         DUE.by("31: or missing (sort -1: n does not matter)");
         for (int n : new int[] {0, 1, 40, 41, -1, MIN, MAX}) {
-            ChalkStreet x = of(4);
+            ChalkStreet x = Scenes.ring(4);
             DUE.is("one that is missing", x.sheet(3, -1, n), 1);
             DUE.is("missing", x.cell(3, 0, 0), -11);
             x.sheet(3, 2, 4);
@@ -126,7 +118,7 @@ public final class HostBoundsTest {
     private static void sheetAnew() {
         DUE.by("31: becomes a row of n of a sort, all 0");
         for (int sort = 0; sort < 3; sort++) {
-            ChalkStreet x = of(10);
+            ChalkStreet x = Scenes.ring(10);
             x.sheet(1, sort, 40);
             for (int i = 0; i < 40; i++) x.cell(1, i, 1);
             items("all 1", x, 1, sort, 20, 11, 11, 11, 11, 11, 11, 11, 11, 11, 11);
@@ -142,16 +134,16 @@ public final class HostBoundsTest {
 
     private static void sheetRefused() {
         DUE.by("31: BAD; -14; refusals change nothing");
-        refused("sheet(-1, 0, 1)", x -> x.sheet(-1, 0, 1), -2);
-        refused("sheet(4, 0, 1)", x -> x.sheet(4, 0, 1), -2);
-        refused("sheet(4, -1, 1)", x -> x.sheet(4, -1, 1), -2);
-        refused("sheet(0, 3, 1)", x -> x.sheet(0, 3, 1), -2);
-        refused("sheet(0, -2, 1)", x -> x.sheet(0, -2, 1), -2);
-        refused("sheet(0, -2, -1)", x -> x.sheet(0, -2, -1), -2);
-        refused("sheet(0, 0, 41)", x -> x.sheet(0, 0, 41), -2);
-        refused("sheet(1, 1, -1)", x -> x.sheet(1, 1, -1), -14);
-        refused("sheet(3, 2, MIN)", x -> x.sheet(3, 2, MIN), -14);
-        refused("sheet(2, 2, MAX)", x -> x.sheet(2, 2, MAX), -2);
+        REFUSED.ofSome("sheet(-1, 0, 1)", x -> x.sheet(-1, 0, 1), -2);
+        REFUSED.ofSome("sheet(4, 0, 1)", x -> x.sheet(4, 0, 1), -2);
+        REFUSED.ofSome("sheet(4, -1, 1)", x -> x.sheet(4, -1, 1), -2);
+        REFUSED.ofSome("sheet(0, 3, 1)", x -> x.sheet(0, 3, 1), -2);
+        REFUSED.ofSome("sheet(0, -2, 1)", x -> x.sheet(0, -2, 1), -2);
+        REFUSED.ofSome("sheet(0, -2, -1)", x -> x.sheet(0, -2, -1), -2);
+        REFUSED.ofSome("sheet(0, 0, 41)", x -> x.sheet(0, 0, 41), -2);
+        REFUSED.ofSome("sheet(1, 1, -1)", x -> x.sheet(1, 1, -1), -14);
+        REFUSED.ofSome("sheet(3, 2, MIN)", x -> x.sheet(3, 2, MIN), -14);
+        REFUSED.ofSome("sheet(2, 2, MAX)", x -> x.sheet(2, 2, MAX), -2);
     }
 
     // ---- 32
@@ -159,7 +151,7 @@ public final class HostBoundsTest {
     private static void cellPlaces() {
         DUE.by("32: -12: a place outside");
         for (int n : new int[] {1, 2, 39, 40}) {
-            ChalkStreet x = of(4);
+            ChalkStreet x = Scenes.ring(4);
             for (int s = 0; s < 4; s++) x.sheet(s, s % 3, n);
             for (int s = 0; s < 4; s++) {
                 DUE.is("the first", x.cell(s, 0, s), 1);
@@ -169,7 +161,7 @@ public final class HostBoundsTest {
                 }
             }
         }
-        ChalkStreet y = of(4);
+        ChalkStreet y = Scenes.ring(4);
         y.sheet(0, 0, 0);
         DUE.is("of none", y.cell(0, 0, 1), -12);
         y.sheet(0, 2, 2);
@@ -185,10 +177,10 @@ public final class HostBoundsTest {
 
     private static void cellBytes() {
         DUE.by("32: item i of a SHEET becomes v (of bytes its lowest 8 bits)");
-        ChalkStreet x = of(4);
+        ChalkStreet x = Scenes.ring(4);
         x.sheet(0, 0, 2);
         for (int kind = 0; kind < 256; kind++) {
-            ChalkStreet y = of(4);
+            ChalkStreet y = Scenes.ring(4);
             y.sheet(0, 0, 2);
             y.cell(0, 0, 256 * (kind - 100) + kind);
             DUE.is("by the lowest 8 bits " + kind, y.squares(0, 0, 0, 1), kind < 6 ? 1 : 0);
@@ -208,7 +200,7 @@ public final class HostBoundsTest {
 
     private static void cellShorts() {
         DUE.by("32: item i of a SHEET becomes v (of shorts its lowest 16 bits)");
-        ChalkStreet x = of(4);
+        ChalkStreet x = Scenes.ring(4);
         x.sheet(0, 1, 2);
         int[] nines = {9, 65536 + 9, 9 - 65536, MIN + 9, MAX - 65526, 1 << 16 | 9, 1 << 31 | 9};
         for (int v : nines) {
@@ -225,7 +217,7 @@ public final class HostBoundsTest {
 
     private static void cellInts() {
         DUE.by("32: item i of a SHEET becomes v");
-        ChalkStreet x = of(4);
+        ChalkStreet x = Scenes.ring(4);
         x.sheet(0, 2, 2);
         x.cell(0, 1, 9);
         DUE.is("9", x.squares(0, 2, 0, 1), 1);
@@ -239,24 +231,24 @@ public final class HostBoundsTest {
 
     private static void cellRefused() {
         DUE.by("32: BAD: no such SHEET; -11; -12: the first that the words name");
-        refused("cell(-1, 0, 1)", x -> x.cell(-1, 0, 1), -2);
-        refused("cell(4, 0, 1)", x -> x.cell(4, 0, 1), -2);
-        refused("cell(4, -1, 1)", x -> x.cell(4, -1, 1), -2);
-        refused("cell(3, 0, 1)", x -> x.cell(3, 0, 1), -11);
-        refused("cell(3, -1, 1)", x -> x.cell(3, -1, 1), -11);
-        refused("cell(3, 40, 1)", x -> x.cell(3, 40, 1), -11);
-        refused("cell(0, -1, 1)", x -> x.cell(0, -1, 1), -12);
-        refused("cell(0, 8, 1)", x -> x.cell(0, 8, 1), -12);
-        refused("cell(0, 40, 1)", x -> x.cell(0, 40, 1), -12);
-        refused("cell(1, -40, 1)", x -> x.cell(1, -40, 1), -12);
-        refused("cell(2, MAX, 1)", x -> x.cell(2, MAX, 1), -12);
-        refused("cell(2, MIN, 1)", x -> x.cell(2, MIN, 1), -12);
+        REFUSED.ofSome("cell(-1, 0, 1)", x -> x.cell(-1, 0, 1), -2);
+        REFUSED.ofSome("cell(4, 0, 1)", x -> x.cell(4, 0, 1), -2);
+        REFUSED.ofSome("cell(4, -1, 1)", x -> x.cell(4, -1, 1), -2);
+        REFUSED.ofSome("cell(3, 0, 1)", x -> x.cell(3, 0, 1), -11);
+        REFUSED.ofSome("cell(3, -1, 1)", x -> x.cell(3, -1, 1), -11);
+        REFUSED.ofSome("cell(3, 40, 1)", x -> x.cell(3, 40, 1), -11);
+        REFUSED.ofSome("cell(0, -1, 1)", x -> x.cell(0, -1, 1), -12);
+        REFUSED.ofSome("cell(0, 8, 1)", x -> x.cell(0, 8, 1), -12);
+        REFUSED.ofSome("cell(0, 40, 1)", x -> x.cell(0, 40, 1), -12);
+        REFUSED.ofSome("cell(1, -40, 1)", x -> x.cell(1, -40, 1), -12);
+        REFUSED.ofSome("cell(2, MAX, 1)", x -> x.cell(2, MAX, 1), -12);
+        REFUSED.ofSome("cell(2, MIN, 1)", x -> x.cell(2, MIN, 1), -12);
     }
 
     // ---- 33
 
     private static ChalkStreet two(int sort, int size, int other) {
-        ChalkStreet x = of(10);
+        ChalkStreet x = Scenes.ring(10);
         x.sheet(0, sort, size);
         x.sheet(1, sort, other);
         for (int i = 0; i < size; i++) x.cell(0, i, i % 5 + 1);
@@ -312,7 +304,7 @@ public final class HostBoundsTest {
         DUE.by("33: -13: they are of unlike sorts");
         for (int sort = 0; sort < 3; sort++) {
             for (int other = 0; other < 3; other++) {
-                ChalkStreet x = of(4);
+                ChalkStreet x = Scenes.ring(4);
                 x.sheet(2, sort, 4);
                 x.sheet(3, other, 4);
                 DUE.is(sort + " and " + other, x.copy(2, 0, 3, 0, 4), sort == other ? 4 : -13);
@@ -340,29 +332,29 @@ public final class HostBoundsTest {
 
     private static void copyRefused() {
         DUE.by("33: BAD: no such SHEET; -11; -13; -12: the first that the words name");
-        refused("copy(-1, 0, 0, 0, 1)", x -> x.copy(-1, 0, 0, 0, 1), -2);
-        refused("copy(0, 0, 4, 0, 1)", x -> x.copy(0, 0, 4, 0, 1), -2);
-        refused("copy(3, 0, 4, -1, -1), BAD ahead of -11", x -> x.copy(3, 0, 4, -1, -1), -2);
-        refused("copy(-1, 0, 3, 0, 1), BAD ahead of -11", x -> x.copy(-1, 0, 3, 0, 1), -2);
-        refused("copy(3, 0, 0, 0, 1)", x -> x.copy(3, 0, 0, 0, 1), -11);
-        refused("copy(0, 0, 3, 0, 1)", x -> x.copy(0, 0, 3, 0, 1), -11);
-        refused("copy(3, 0, 3, 0, 0)", x -> x.copy(3, 0, 3, 0, 0), -11);
-        refused("copy(0, 9, 3, 9, -1), -11 ahead of -12", x -> x.copy(0, 9, 3, 9, -1), -11);
-        refused("copy(0, 0, 1, 0, 1)", x -> x.copy(0, 0, 1, 0, 1), -13);
-        refused("copy(2, 0, 1, 0, 0)", x -> x.copy(2, 0, 1, 0, 0), -13);
-        refused("copy(0, 0, 1, 0, -1), -13 ahead of -12", x -> x.copy(0, 0, 1, 0, -1), -13);
-        refused("copy(0, 0, 0, 1, 8)", x -> x.copy(0, 0, 0, 1, 8), -12);
-        refused("copy(0, 1, 0, 0, 8)", x -> x.copy(0, 1, 0, 0, 8), -12);
-        refused("copy(0, 0, 0, 1, -1)", x -> x.copy(0, 0, 0, 1, -1), -12);
-        refused("copy(1, 0, 1, -1, 3)", x -> x.copy(1, 0, 1, -1, 3), -12);
-        refused("copy(2, -1, 2, 0, 3)", x -> x.copy(2, -1, 2, 0, 3), -12);
+        REFUSED.ofSome("copy(-1, 0, 0, 0, 1)", x -> x.copy(-1, 0, 0, 0, 1), -2);
+        REFUSED.ofSome("copy(0, 0, 4, 0, 1)", x -> x.copy(0, 0, 4, 0, 1), -2);
+        REFUSED.ofSome("copy(3, 0, 4, -1, -1), BAD ahead of -11", x -> x.copy(3, 0, 4, -1, -1), -2);
+        REFUSED.ofSome("copy(-1, 0, 3, 0, 1), BAD ahead of -11", x -> x.copy(-1, 0, 3, 0, 1), -2);
+        REFUSED.ofSome("copy(3, 0, 0, 0, 1)", x -> x.copy(3, 0, 0, 0, 1), -11);
+        REFUSED.ofSome("copy(0, 0, 3, 0, 1)", x -> x.copy(0, 0, 3, 0, 1), -11);
+        REFUSED.ofSome("copy(3, 0, 3, 0, 0)", x -> x.copy(3, 0, 3, 0, 0), -11);
+        REFUSED.ofSome("copy(0, 9, 3, 9, -1), -11 ahead of -12", x -> x.copy(0, 9, 3, 9, -1), -11);
+        REFUSED.ofSome("copy(0, 0, 1, 0, 1)", x -> x.copy(0, 0, 1, 0, 1), -13);
+        REFUSED.ofSome("copy(2, 0, 1, 0, 0)", x -> x.copy(2, 0, 1, 0, 0), -13);
+        REFUSED.ofSome("copy(0, 0, 1, 0, -1), -13 ahead of -12", x -> x.copy(0, 0, 1, 0, -1), -13);
+        REFUSED.ofSome("copy(0, 0, 0, 1, 8)", x -> x.copy(0, 0, 0, 1, 8), -12);
+        REFUSED.ofSome("copy(0, 1, 0, 0, 8)", x -> x.copy(0, 1, 0, 0, 8), -12);
+        REFUSED.ofSome("copy(0, 0, 0, 1, -1)", x -> x.copy(0, 0, 0, 1, -1), -12);
+        REFUSED.ofSome("copy(1, 0, 1, -1, 3)", x -> x.copy(1, 0, 1, -1, 3), -12);
+        REFUSED.ofSome("copy(2, -1, 2, 0, 3)", x -> x.copy(2, -1, 2, 0, 3), -12);
     }
 
     // ---- 34
 
     private static void squaresMany() {
         DUE.by("34: n of them (0 .. 10): how many were told; BAD: n");
-        ChalkStreet x = of(10);
+        ChalkStreet x = Scenes.ring(10);
         x.sheet(0, 2, 20);
         for (int i = 0; i < 20; i++) x.cell(0, i, i % 2 == 0 ? 5 : 9);
         for (int n = 0; n <= 10; n++) {
@@ -373,7 +365,7 @@ public final class HostBoundsTest {
             }
         }
         for (int n : new int[] {-1, 11, 12, MIN, MAX}) DUE.is("n " + n, x.squares(0, 2, 0, n), -2);
-        ChalkStreet y = of(4);
+        ChalkStreet y = Scenes.ring(4);
         y.sheet(0, 2, 40);
         DUE.is("ten of four", y.squares(0, 2, 0, 10), 4);
         DUE.is("eleven of four", y.squares(0, 2, 0, 11), -2);
@@ -383,7 +375,7 @@ public final class HostBoundsTest {
         DUE.by("34: others are left as they are");
         int[][] items = {{-1, 0}, {0, -1}, {6, 0}, {0, 10}, {6, 10}, {MIN, 0}, {0, MAX}, {MAX, MIN}, {5, 10}, {6, 9}};
         for (int[] item : items) {
-            ChalkStreet x = of(10);
+            ChalkStreet x = Scenes.ring(10);
             x.square(0, 4, 4);
             x.square(2, 3, 3);
             x.sheet(0, 2, 6);
@@ -393,7 +385,7 @@ public final class HostBoundsTest {
         }
         int[][] good = {{0, 0}, {5, 9}, {0, 9}, {5, 0}};
         for (int[] item : good) {
-            ChalkStreet x = of(10);
+            ChalkStreet x = Scenes.ring(10);
             x.square(0, 4, 4);
             x.sheet(0, 2, 2);
             fill(x, 0, item[0], item[1]);
@@ -405,7 +397,7 @@ public final class HostBoundsTest {
     private static void squaresBeyondTheRing() {
         DUE.by("34: those beyond the ring too");
         for (int n = 4; n <= 10; n++) {
-            ChalkStreet x = of(n);
+            ChalkStreet x = Scenes.ring(n);
             x.sheet(3, 1, 40);
             for (int i = 0; i < 40; i++) x.cell(3, i, 2);
             DUE.is("ten of " + n, x.squares(3, 1, 20, 10), n);
@@ -418,7 +410,7 @@ public final class HostBoundsTest {
 
     private static void squaresFrom() {
         DUE.by("34: from one on, two by two; -12: a place outside");
-        ChalkStreet x = of(10);
+        ChalkStreet x = Scenes.ring(10);
         x.sheet(0, 0, 20);
         for (int i = 0; i < 20; i++) x.cell(0, i, i % 5 + 1);
         DUE.is("all", x.squares(0, 0, 0, 10), 10);
@@ -441,7 +433,7 @@ public final class HostBoundsTest {
     private static void squaresToldAhead() {
         DUE.by("34: -12: what stood ahead was told");
         for (int size = 0; size <= 8; size++) {
-            ChalkStreet x = of(10);
+            ChalkStreet x = Scenes.ring(10);
             for (int s = 0; s < 10; s++) x.square(s, 4, 4);
             x.sheet(2, 1, size);
             for (int i = 0; i < size; i++) x.cell(2, i, 1);
@@ -455,25 +447,25 @@ public final class HostBoundsTest {
 
     private static void squaresRefused() {
         DUE.by("34: BAD: no such SHEET, sort, n; -13; -11; -12: the first that the words name");
-        refused("squares(-1, 0, 0, 1)", x -> x.squares(-1, 0, 0, 1), -2);
-        refused("squares(4, 0, 0, 1)", x -> x.squares(4, 0, 0, 1), -2);
-        refused("squares(0, -1, 0, 1)", x -> x.squares(0, -1, 0, 1), -2);
-        refused("squares(0, 3, 0, 1)", x -> x.squares(0, 3, 0, 1), -2);
-        refused("squares(0, 0, 0, -1)", x -> x.squares(0, 0, 0, -1), -2);
-        refused("squares(0, 0, 0, 11)", x -> x.squares(0, 0, 0, 11), -2);
-        refused("squares(0, 1, 0, 11), BAD ahead of -13", x -> x.squares(0, 1, 0, 11), -2);
-        refused("squares(3, 1, 0, 11), BAD ahead of -11", x -> x.squares(3, 1, 0, 11), -2);
-        refused("squares(0, 1, 0, 1)", x -> x.squares(0, 1, 0, 1), -13);
-        refused("squares(1, 0, 0, 0)", x -> x.squares(1, 0, 0, 0), -13);
-        refused("squares(2, 0, -1, 1), -13 ahead of -12", x -> x.squares(2, 0, -1, 1), -13);
-        refused("squares(3, 0, 0, 1)", x -> x.squares(3, 0, 0, 1), -11);
-        refused("squares(3, 2, -1, 0), -11 ahead of -12", x -> x.squares(3, 2, -1, 0), -11);
-        refused("squares(0, 0, -1, 3)", x -> x.squares(0, 0, -1, 3), -12);
-        refused("squares(0, 0, 7, 1)", x -> x.squares(0, 0, 7, 1), -12);
-        refused("squares(0, 0, MAX, 10)", x -> x.squares(0, 0, MAX, 10), -12);
-        refused("squares(0, 0, MIN, 10)", x -> x.squares(0, 0, MIN, 10), -12);
-        refused("squares(0, 0, -1, 0)", x -> x.squares(0, 0, -1, 0), 0);
-        Everything.refused(DUE, Scenes::full, "squares(0, 0, 0, 1) of a full one", x -> x.squares(0, 0, 0, 1), -11);
+        REFUSED.ofSome("squares(-1, 0, 0, 1)", x -> x.squares(-1, 0, 0, 1), -2);
+        REFUSED.ofSome("squares(4, 0, 0, 1)", x -> x.squares(4, 0, 0, 1), -2);
+        REFUSED.ofSome("squares(0, -1, 0, 1)", x -> x.squares(0, -1, 0, 1), -2);
+        REFUSED.ofSome("squares(0, 3, 0, 1)", x -> x.squares(0, 3, 0, 1), -2);
+        REFUSED.ofSome("squares(0, 0, 0, -1)", x -> x.squares(0, 0, 0, -1), -2);
+        REFUSED.ofSome("squares(0, 0, 0, 11)", x -> x.squares(0, 0, 0, 11), -2);
+        REFUSED.ofSome("squares(0, 1, 0, 11), BAD ahead of -13", x -> x.squares(0, 1, 0, 11), -2);
+        REFUSED.ofSome("squares(3, 1, 0, 11), BAD ahead of -11", x -> x.squares(3, 1, 0, 11), -2);
+        REFUSED.ofSome("squares(0, 1, 0, 1)", x -> x.squares(0, 1, 0, 1), -13);
+        REFUSED.ofSome("squares(1, 0, 0, 0)", x -> x.squares(1, 0, 0, 0), -13);
+        REFUSED.ofSome("squares(2, 0, -1, 1), -13 ahead of -12", x -> x.squares(2, 0, -1, 1), -13);
+        REFUSED.ofSome("squares(3, 0, 0, 1)", x -> x.squares(3, 0, 0, 1), -11);
+        REFUSED.ofSome("squares(3, 2, -1, 0), -11 ahead of -12", x -> x.squares(3, 2, -1, 0), -11);
+        REFUSED.ofSome("squares(0, 0, -1, 3)", x -> x.squares(0, 0, -1, 3), -12);
+        REFUSED.ofSome("squares(0, 0, 7, 1)", x -> x.squares(0, 0, 7, 1), -12);
+        REFUSED.ofSome("squares(0, 0, MAX, 10)", x -> x.squares(0, 0, MAX, 10), -12);
+        REFUSED.ofSome("squares(0, 0, MIN, 10)", x -> x.squares(0, 0, MIN, 10), -12);
+        REFUSED.ofSome("squares(0, 0, -1, 0)", x -> x.squares(0, 0, -1, 0), 0);
+        REFUSED.ofFull("squares(0, 0, 0, 1)", x -> x.squares(0, 0, 0, 1), -11);
     }
 
     // ---- 35
@@ -482,7 +474,7 @@ public final class HostBoundsTest {
         DUE.by("35: taken for one of KIND k (0 .. 5), or one under that one (also by others between): its NUMBER");
         int[][] under = {{0}, {0, 1}, {0, 2}, {0, 3}, {0, 1, 4}, {0, 3, 5}};
         for (int n = 4; n <= 10; n++) {
-            ChalkStreet x = of(n);
+            ChalkStreet x = Scenes.ring(n);
             for (int kind = 0; kind < 6; kind++) {
                 x.square(0, kind, kind);
                 x.square(n - 1, kind, 9);
@@ -498,15 +490,15 @@ public final class HostBoundsTest {
 
     private static void takenRefused() {
         DUE.by("35: BAD: k; -11: no such SQUARE; -13: the first that the words name");
-        refused("taken(0, -1)", x -> x.taken(0, -1), -2);
-        refused("taken(0, 6)", x -> x.taken(0, 6), -2);
-        refused("taken(-1, 6), BAD ahead of -11", x -> x.taken(-1, 6), -2);
-        refused("taken(n, -1), BAD ahead of -11", x -> x.taken(x.count(0), -1), -2);
-        refused("taken(-1, 0)", x -> x.taken(-1, 0), -11);
-        refused("taken(n, 5)", x -> x.taken(x.count(0), 5), -11);
-        refused("taken(MIN, 0)", x -> x.taken(MIN, 0), -11);
-        refused("taken(MAX, 0)", x -> x.taken(MAX, 0), -11);
-        refused("taken(0, 5)", x -> x.taken(0, 5), -13);
-        refused("taken(1, 5)", x -> x.taken(1, 5), -13);
+        REFUSED.ofSome("taken(2, -1)", x -> x.taken(2, -1), -2);
+        REFUSED.ofSome("taken(4, 6)", x -> x.taken(4, 6), -2);
+        REFUSED.ofSome("taken(-1, 6), BAD ahead of -11", x -> x.taken(-1, 6), -2);
+        REFUSED.ofSome("taken(n, -1), BAD ahead of -11", x -> x.taken(x.count(0), -1), -2);
+        REFUSED.ofSome("taken(-1, 0)", x -> x.taken(-1, 0), -11);
+        REFUSED.ofSome("taken(n, 5)", x -> x.taken(x.count(0), 5), -11);
+        REFUSED.ofSome("taken(MIN, 0)", x -> x.taken(MIN, 0), -11);
+        REFUSED.ofSome("taken(MAX, 0)", x -> x.taken(MAX, 0), -11);
+        REFUSED.ofSome("taken(1, 5)", x -> x.taken(1, 5), -13);
+        REFUSED.ofSome("taken(2, 3)", x -> x.taken(2, 3), -13);
     }
 }

@@ -5,6 +5,11 @@ final class Scenes {
     private Scenes() {
     }
 
+    /** A ring of so many squares, new. */
+    static ChalkStreet ring(int squares) {
+        return new ChalkStreet(squares - 4);
+    }
+
     static void write(ChalkStreet x, String text) {
         byte[] signs = text.getBytes(StandardCharsets.ISO_8859_1);
         for (int from = 0; from < signs.length; from += 8) {

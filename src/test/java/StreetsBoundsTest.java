@@ -1,8 +1,7 @@
-import java.util.function.ToLongFunction;
-
 /** Promises 23 to 30, and what a TEXT comes to: each sentence that names a bound, just inside it and just outside. */
 public final class StreetsBoundsTest {
     private static final Due DUE = new Due("StreetsBoundsTest");
+    private static final Refused REFUSED = new Refused(DUE);
     private static final int MIN = Integer.MIN_VALUE, MAX = Integer.MAX_VALUE;
 
     public static void main(String[] args) {
@@ -37,31 +36,15 @@ public final class StreetsBoundsTest {
         marblesPlayers();
         countNoneAndAll();
         countRefused();
+        DUE.covers(23, 30);
         DUE.end();
-    }
-
-    private static void refused(String call, ToLongFunction<ChalkStreet> refused, long want) {
-        Everything.refused(DUE, Scenes::some, call, refused, want);
-    }
-
-    private static void refusedOfFull(String call, ToLongFunction<ChalkStreet> refused, long want) {
-        Everything.refused(DUE, Scenes::full, call + " of a full one", refused, want);
-    }
-
-    private static void refusedOfBoth(String call, ToLongFunction<ChalkStreet> refused, long want) {
-        refused(call, refused, want);
-        refusedOfFull(call, refused, want);
-    }
-
-    private static ChalkStreet of(int n) {
-        return new ChalkStreet(n - 4);
     }
 
     // ---- 23
 
     private static void forceTexts() {
         DUE.by("23: a TEXT is THE RULE: which was. BAD; 6 TEXTS at most, TEXT 0 with them");
-        ChalkStreet x = of(4);
+        ChalkStreet x = Scenes.ring(4);
         x.telling(0, 0);
         for (int i = 1; i < 6; i++) {
             DUE.is("not read yet", x.force(i), -2);
@@ -82,22 +65,22 @@ public final class StreetsBoundsTest {
 
     private static void forceRefused() {
         DUE.by("23: BAD; refusals change nothing");
-        refused("force(-1)", x -> x.force(-1), -2);
-        refused("force(2)", x -> x.force(2), -2);
-        refusedOfFull("force(6)", x -> x.force(6), -2);
-        refusedOfBoth("force(MIN)", x -> x.force(MIN), -2);
-        refusedOfBoth("force(MAX)", x -> x.force(MAX), -2);
+        REFUSED.ofSome("force(-1)", x -> x.force(-1), -2);
+        REFUSED.ofSome("force(2)", x -> x.force(2), -2);
+        REFUSED.ofFull("force(6)", x -> x.force(6), -2);
+        REFUSED.ofBoth("force(MIN)", x -> x.force(MIN), -2);
+        REFUSED.ofBoth("force(MAX)", x -> x.force(MAX), -2);
     }
 
     // ---- 24
 
     private static void comesTo(String e, long want) {
-        ChalkStreet x = of(4);
+        ChalkStreet x = Scenes.ring(4);
         x.telling(0, 0);
         Scenes.read(x, "take " + e + ";keep 1;");
         x.force(1);
         DUE.is(e, x.says(0, 0), want);
-        ChalkStreet y = of(4);
+        ChalkStreet y = Scenes.ring(4);
         y.telling(0, 0);
         Scenes.read(y, "take 1;keep " + e + ";");
         y.force(1);
@@ -175,22 +158,22 @@ public final class StreetsBoundsTest {
 
     private static void namesAtTheEnds() {
         DUE.by("24: year; won, lost, endless: how many SQUARES are that by it; steps: how many are allowed; own");
-        ChalkStreet x = of(10);
+        ChalkStreet x = Scenes.ring(10);
         x.telling(0, 0);
         names(x, 0, 0, 0, 10, 1, 0);
-        ChalkStreet y = of(10);
+        ChalkStreet y = Scenes.ring(10);
         for (int s = 0; s < 10; s++) y.square(s, 3, 0);
         y.steps(31);
         y.telling(999, 0);
         for (int i = 0; i < 33; i++) y.years(30);
         y.years(9);
         names(y, 999, 10, 0, 0, 5, 999);
-        ChalkStreet z = of(10);
+        ChalkStreet z = Scenes.ring(10);
         for (int s = 0; s < 10; s++) z.square(s, 2, 0);
         z.telling(7, 0);
         z.years(1);
         names(z, 1, 0, 10, 0, 1, 7);
-        ChalkStreet w = of(4);
+        ChalkStreet w = Scenes.ring(4);
         for (int s = 0; s < 4; s++) w.square(s, 3, 0);
         w.telling(7, 0);
         for (int s = 0; s < 4; s++) w.gap(0, s);
@@ -200,7 +183,7 @@ public final class StreetsBoundsTest {
 
     private static void namesOfTheLast() {
         DUE.by("24: of a TELLING, each of twelve");
-        ChalkStreet x = of(10);
+        ChalkStreet x = Scenes.ring(10);
         for (int t = 0; t < 12; t++) {
             // Of so many HOMEs behind one another each is ahead of another one; the rest goes by turns.
             if (t > 0 && t < 11) x.square(t - 1, 3, 0);
@@ -219,7 +202,7 @@ public final class StreetsBoundsTest {
 
     /** So many ENDLESS SQUARES: step 1 leads from 0 on to one that is BACK by 1, and behind that to HOME. */
     private static ChalkStreet endless(int many) {
-        ChalkStreet x = of(10);
+        ChalkStreet x = Scenes.ring(10);
         x.square(many, 4, 1);
         x.square(0, 3, 0);
         x.telling(0, 0);
@@ -241,25 +224,25 @@ public final class StreetsBoundsTest {
 
     private static void saysRefused() {
         DUE.by("24: NO: none such");
-        DUE.is("none told", of(4).says(0, 0), ChalkStreet.NO);
-        ChalkStreet x = of(4);
+        DUE.is("none told", Scenes.ring(4).says(0, 0), ChalkStreet.NO);
+        ChalkStreet x = Scenes.ring(4);
         x.telling(0, 0);
         DUE.is("take", x.says(0, 0), 0);
         DUE.is("keep", x.says(0, 1), 0);
-        refusedOfBoth("says(-1, 0)", y -> y.says(-1, 0), ChalkStreet.NO);
-        refusedOfBoth("says(0, -1)", y -> y.says(0, -1), ChalkStreet.NO);
-        refusedOfBoth("says(0, 2)", y -> y.says(0, 2), ChalkStreet.NO);
-        refused("says(3, 0)", y -> y.says(3, 0), ChalkStreet.NO);
-        refusedOfFull("says(12, 1)", y -> y.says(12, 1), ChalkStreet.NO);
-        refusedOfFull("says(MAX, 1)", y -> y.says(MAX, 1), ChalkStreet.NO);
-        refusedOfFull("says(MIN, MIN)", y -> y.says(MIN, MIN), ChalkStreet.NO);
+        REFUSED.ofBoth("says(-1, 0)", y -> y.says(-1, 0), ChalkStreet.NO);
+        REFUSED.ofBoth("says(0, -1)", y -> y.says(0, -1), ChalkStreet.NO);
+        REFUSED.ofBoth("says(0, 2)", y -> y.says(0, 2), ChalkStreet.NO);
+        REFUSED.ofSome("says(3, 0)", y -> y.says(3, 0), ChalkStreet.NO);
+        REFUSED.ofFull("says(12, 1)", y -> y.says(12, 1), ChalkStreet.NO);
+        REFUSED.ofFull("says(MAX, 1)", y -> y.says(MAX, 1), ChalkStreet.NO);
+        REFUSED.ofFull("says(MIN, MIN)", y -> y.says(MIN, MIN), ChalkStreet.NO);
     }
 
     // ---- 25, 27
 
     private static void streetRing() {
         DUE.by("25: STREETS 0 .. 7");
-        ChalkStreet x = of(4);
+        ChalkStreet x = Scenes.ring(4);
         x.telling(0, 0);
         for (int s = 0; s < 8; s++) {
             DUE.is("has none", x.has(s), -1);
@@ -273,7 +256,7 @@ public final class StreetsBoundsTest {
 
     private static void streetTellings() {
         DUE.by("25: a STREET has a TELLING (-1: none): which it had (NONE). -5: no such TELLING");
-        ChalkStreet x = of(4);
+        ChalkStreet x = Scenes.ring(4);
         DUE.is("none, of none told", x.street(0, -1), -1);
         DUE.is("the first, of none told", x.street(0, 0), -5);
         for (int t = 0; t < 12; t++) {
@@ -290,31 +273,31 @@ public final class StreetsBoundsTest {
 
     private static void streetRefused() {
         DUE.by("25: -5: no such STREET, TELLING; refusals change nothing");
-        refusedOfBoth("street(-1, 0)", x -> x.street(-1, 0), -5);
-        refusedOfBoth("street(8, 0)", x -> x.street(8, 0), -5);
-        refusedOfBoth("street(8, -1)", x -> x.street(8, -1), -5);
-        refusedOfBoth("street(0, -2)", x -> x.street(0, -2), -5);
-        refused("street(0, 3)", x -> x.street(0, 3), -5);
-        refusedOfFull("street(0, 12)", x -> x.street(0, 12), -5);
-        refusedOfFull("street(MAX, MAX)", x -> x.street(MAX, MAX), -5);
+        REFUSED.ofBoth("street(-1, 0)", x -> x.street(-1, 0), -5);
+        REFUSED.ofBoth("street(8, 0)", x -> x.street(8, 0), -5);
+        REFUSED.ofBoth("street(8, -1)", x -> x.street(8, -1), -5);
+        REFUSED.ofBoth("street(0, -2)", x -> x.street(0, -2), -5);
+        REFUSED.ofSome("street(0, 3)", x -> x.street(0, 3), -5);
+        REFUSED.ofFull("street(0, 12)", x -> x.street(0, 12), -5);
+        REFUSED.ofFull("street(MAX, MAX)", x -> x.street(MAX, MAX), -5);
     }
 
     private static void hasRefused() {
         DUE.by("27: NONE; BAD");
-        ChalkStreet x = of(4);
+        ChalkStreet x = Scenes.ring(4);
         DUE.is("has(0)", x.has(0), -1);
         DUE.is("has(7)", x.has(7), -1);
-        refusedOfBoth("has(-1)", y -> y.has(-1), -2);
-        refusedOfBoth("has(8)", y -> y.has(8), -2);
-        refused("has(MIN)", y -> y.has(MIN), -2);
-        refused("has(MAX)", y -> y.has(MAX), -2);
+        REFUSED.ofBoth("has(-1)", y -> y.has(-1), -2);
+        REFUSED.ofBoth("has(8)", y -> y.has(8), -2);
+        REFUSED.ofSome("has(MIN)", y -> y.has(MIN), -2);
+        REFUSED.ofSome("has(MAX)", y -> y.has(MAX), -2);
     }
 
     // ---- 26
 
     private static void yearsThirty() {
         DUE.by("26: n YEARS (1 .. 30) go by: YEAR. BAD");
-        ChalkStreet x = of(4);
+        ChalkStreet x = Scenes.ring(4);
         DUE.is("1", x.years(1), 1);
         DUE.is("30", x.years(30), 31);
         for (int n : new int[] {0, -1, 31, 32, 1000, MIN, MAX}) DUE.is("years(" + n + ")", x.years(n), -2);
@@ -327,7 +310,7 @@ public final class StreetsBoundsTest {
 
     private static void yearsTillTheLast() {
         DUE.by("26: FULL: above 999");
-        ChalkStreet x = of(4);
+        ChalkStreet x = Scenes.ring(4);
         for (int i = 1; i < 34; i++) DUE.is("years(30)", x.years(30), 30 * i);
         DUE.is("to 1000", x.years(10), -4);
         DUE.is("to 1020", x.years(30), -4);
@@ -337,7 +320,7 @@ public final class StreetsBoundsTest {
         DUE.is("to 1000", x.years(1), -4);
         DUE.is("BAD ahead of FULL", x.years(0), -2);
         DUE.is("as it was", x.count(6), 999);
-        ChalkStreet y = of(4);
+        ChalkStreet y = Scenes.ring(4);
         for (int i = 1; i < 33; i++) y.years(30);
         y.years(10);
         DUE.is("from 970 to 1000", y.years(30), -4);
@@ -346,18 +329,18 @@ public final class StreetsBoundsTest {
 
     private static void yearsRefused() {
         DUE.by("26: BAD; FULL; refusals change nothing");
-        refused("years(0)", x -> x.years(0), -2);
-        refused("years(-1)", x -> x.years(-1), -2);
-        refused("years(31)", x -> x.years(31), -2);
-        refusedOfFull("years(1)", x -> x.years(1), -4);
-        refusedOfFull("years(30)", x -> x.years(30), -4);
-        refusedOfFull("years(31)", x -> x.years(31), -2);
-        refusedOfFull("years(MIN)", x -> x.years(MIN), -2);
+        REFUSED.ofSome("years(0)", x -> x.years(0), -2);
+        REFUSED.ofSome("years(-1)", x -> x.years(-1), -2);
+        REFUSED.ofSome("years(31)", x -> x.years(31), -2);
+        REFUSED.ofFull("years(1)", x -> x.years(1), -4);
+        REFUSED.ofFull("years(30)", x -> x.years(30), -4);
+        REFUSED.ofFull("years(31)", x -> x.years(31), -2);
+        REFUSED.ofFull("years(MIN)", x -> x.years(MIN), -2);
     }
 
     /** TELLINGS of these YEARS, which THE RULE can name as own, and STREETS that have them. */
     private static ChalkStreet follow(String rule, int[] years, int... tellings) {
-        ChalkStreet x = of(4);
+        ChalkStreet x = Scenes.ring(4);
         for (int year : years) x.telling(year, 0);
         DUE.is("read " + rule, Scenes.read(x, rule), 1);
         x.force(1);
@@ -476,7 +459,7 @@ public final class StreetsBoundsTest {
 
     /** A game that the first player has won by step 1 and lost by step 2, and that goes on by step 3. */
     private static ChalkStreet game() {
-        ChalkStreet x = of(10);
+        ChalkStreet x = Scenes.ring(10);
         x.square(1, 3, 0);
         x.square(2, 2, 0);
         x.steps(7);
@@ -552,7 +535,7 @@ public final class StreetsBoundsTest {
         DUE.is("a step", x.game(0, 1, 9, 3), 2);
         DUE.is("a 0 ends it", x.game(0, 1, 9, 103), 2);
         for (int p = 0; p < 4; p++) DUE.is("marbles(" + p + ")", x.marbles(p), 20);
-        ChalkStreet y = of(10);
+        ChalkStreet y = Scenes.ring(10);
         DUE.is("18 steps", y.game(0, 1, 9, 111111111111111111L), 2);
         y.square(8, 3, 0);
         DUE.is("over by the 8th", y.game(0, 1, 9, 11111111), 1);
@@ -561,31 +544,31 @@ public final class StreetsBoundsTest {
 
     private static void gameRefused() {
         DUE.by("28: BAD: PLAYERS, STAKE, row; STATE: a step can't be made");
-        refused("game(-1, 0, 1, 1)", x -> x.game(-1, 0, 1, 1), -2);
-        refused("game(0, 4, 1, 1)", x -> x.game(0, 4, 1, 1), -2);
-        refused("game(2, 2, 1, 1)", x -> x.game(2, 2, 1, 1), -2);
-        refused("game(0, 1, -1, 1)", x -> x.game(0, 1, -1, 1), -2);
-        refused("game(0, 1, 10, 1)", x -> x.game(0, 1, 10, 1), -2);
-        refused("game(0, 1, 1, -1)", x -> x.game(0, 1, 1, -1), -2);
-        refused("game(0, 1, 1, 10^18)", x -> x.game(0, 1, 1, 1000000000000000000L), -2);
-        refused("game(0, 1, 1, the least)", x -> x.game(0, 1, 1, Long.MIN_VALUE), -2);
-        refusedOfBoth("game(0, 1, 9, 9)", x -> x.game(0, 1, 9, 9), -3);
-        refusedOfBoth("game(0, 1, 9, 11)", x -> x.game(0, 1, 9, 11), -3);
-        refusedOfBoth("game(0, 1, 9, 91), over ahead", x -> x.game(0, 1, 9, 91), -3);
-        refusedOfBoth("game(0, 0, 9, 9), BAD ahead", x -> x.game(0, 0, 9, 9), -2);
-        refusedOfBoth("game(0, 1, 10, 9), BAD ahead", x -> x.game(0, 1, 10, 9), -2);
-        refused("game(0, 1, 9, 0)", x -> x.game(0, 1, 9, 0), 2);
-        refused("game(0, 1, 0, 1)", x -> x.game(0, 1, 0, 1), 0);
+        REFUSED.ofSome("game(-1, 0, 1, 1)", x -> x.game(-1, 0, 1, 1), -2);
+        REFUSED.ofSome("game(0, 4, 1, 1)", x -> x.game(0, 4, 1, 1), -2);
+        REFUSED.ofSome("game(2, 2, 1, 1)", x -> x.game(2, 2, 1, 1), -2);
+        REFUSED.ofSome("game(0, 1, -1, 1)", x -> x.game(0, 1, -1, 1), -2);
+        REFUSED.ofSome("game(0, 1, 10, 1)", x -> x.game(0, 1, 10, 1), -2);
+        REFUSED.ofSome("game(0, 1, 1, -1)", x -> x.game(0, 1, 1, -1), -2);
+        REFUSED.ofSome("game(0, 1, 1, 10^18)", x -> x.game(0, 1, 1, 1000000000000000000L), -2);
+        REFUSED.ofSome("game(0, 1, 1, the least)", x -> x.game(0, 1, 1, Long.MIN_VALUE), -2);
+        REFUSED.ofBoth("game(0, 1, 9, 9)", x -> x.game(0, 1, 9, 9), -3);
+        REFUSED.ofBoth("game(0, 1, 9, 11)", x -> x.game(0, 1, 9, 11), -3);
+        REFUSED.ofBoth("game(0, 1, 9, 91), over ahead", x -> x.game(0, 1, 9, 91), -3);
+        REFUSED.ofBoth("game(0, 0, 9, 9), BAD ahead", x -> x.game(0, 0, 9, 9), -2);
+        REFUSED.ofBoth("game(0, 1, 10, 9), BAD ahead", x -> x.game(0, 1, 10, 9), -2);
+        REFUSED.ofSome("game(0, 1, 9, 0)", x -> x.game(0, 1, 9, 0), 2);
+        REFUSED.ofSome("game(0, 1, 0, 1)", x -> x.game(0, 1, 0, 1), 0);
     }
 
     private static void marblesPlayers() {
         DUE.by("29: MARBLES (20 at first each) of a PLAYER. BAD");
-        ChalkStreet x = of(4);
+        ChalkStreet x = Scenes.ring(4);
         for (int p = 0; p < 4; p++) DUE.is("marbles(" + p + ")", x.marbles(p), 20);
-        refusedOfBoth("marbles(-1)", y -> y.marbles(-1), -2);
-        refusedOfBoth("marbles(4)", y -> y.marbles(4), -2);
-        refused("marbles(MIN)", y -> y.marbles(MIN), -2);
-        refused("marbles(MAX)", y -> y.marbles(MAX), -2);
+        REFUSED.ofBoth("marbles(-1)", y -> y.marbles(-1), -2);
+        REFUSED.ofBoth("marbles(4)", y -> y.marbles(4), -2);
+        REFUSED.ofSome("marbles(MIN)", y -> y.marbles(MIN), -2);
+        REFUSED.ofSome("marbles(MAX)", y -> y.marbles(MAX), -2);
     }
 
     // ---- 30
@@ -593,7 +576,7 @@ public final class StreetsBoundsTest {
     private static void countNoneAndAll() {
         DUE.by("30: 0 SQUARES, 1 STEPS, 2 TELLINGS, 3 TEXTS, 4 bytes of THE TAPE, 5 THE RULE, 6 YEAR, 7 STREETS");
         int[] none = {10, 1, 0, 1, 0, 0, 0, 0};
-        ChalkStreet x = of(10);
+        ChalkStreet x = Scenes.ring(10);
         for (int what = 0; what < 8; what++) DUE.is("at first: count(" + what + ")", x.count(what), none[what]);
         int[] all = {4, 1, 12, 6, 160, 5, 999, 8};
         ChalkStreet y = Scenes.full();
@@ -608,9 +591,9 @@ public final class StreetsBoundsTest {
 
     private static void countRefused() {
         DUE.by("30: BAD");
-        refusedOfBoth("count(-1)", x -> x.count(-1), -2);
-        refusedOfBoth("count(8)", x -> x.count(8), -2);
-        refused("count(MIN)", x -> x.count(MIN), -2);
-        refused("count(MAX)", x -> x.count(MAX), -2);
+        REFUSED.ofBoth("count(-1)", x -> x.count(-1), -2);
+        REFUSED.ofBoth("count(8)", x -> x.count(8), -2);
+        REFUSED.ofSome("count(MIN)", x -> x.count(MIN), -2);
+        REFUSED.ofSome("count(MAX)", x -> x.count(MAX), -2);
     }
 }

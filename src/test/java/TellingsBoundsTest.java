@@ -1,8 +1,7 @@
-import java.util.function.ToLongFunction;
-
 /** Promises 12 to 20: each sentence that names a bound, just inside it and just outside. */
 public final class TellingsBoundsTest {
     private static final Due DUE = new Due("TellingsBoundsTest");
+    private static final Refused REFUSED = new Refused(DUE);
     private static final int MIN = Integer.MIN_VALUE, MAX = Integer.MAX_VALUE;
     private static final long EIGHTEEN = 111111111111111111L;
 
@@ -43,24 +42,8 @@ public final class TellingsBoundsTest {
         quarrelGaps();
         quarrelAgain();
         quarrelRefused();
+        DUE.covers(12, 20);
         DUE.end();
-    }
-
-    private static void refused(String call, ToLongFunction<ChalkStreet> refused, long want) {
-        Everything.refused(DUE, Scenes::some, call, refused, want);
-    }
-
-    private static void refusedOfFull(String call, ToLongFunction<ChalkStreet> refused, long want) {
-        Everything.refused(DUE, Scenes::full, call + " of a full one", refused, want);
-    }
-
-    private static void refusedOfBoth(String call, ToLongFunction<ChalkStreet> refused, long want) {
-        refused(call, refused, want);
-        refusedOfFull(call, refused, want);
-    }
-
-    private static ChalkStreet of(int n) {
-        return new ChalkStreet(n - 4);
     }
 
     private static int gaps(ChalkStreet x, int telling) {
@@ -71,7 +54,7 @@ public final class TellingsBoundsTest {
 
     private static void tellingYear() {
         DUE.by("12: a YEAR (0 .. 999)");
-        ChalkStreet x = of(4);
+        ChalkStreet x = Scenes.ring(4);
         DUE.is("telling(0, 5)", x.telling(0, 5), 0);
         DUE.is("telling(999, 5)", x.telling(999, 5), 1);
         for (int year : new int[] {-1, 1000, MIN, MAX}) DUE.is("telling(" + year + ", 5)", x.telling(year, 5), -2);
@@ -82,7 +65,7 @@ public final class TellingsBoundsTest {
 
     private static void tellingTown() {
         DUE.by("12: a TOWN (0 .. 9)");
-        ChalkStreet x = of(4);
+        ChalkStreet x = Scenes.ring(4);
         DUE.is("telling(5, 0)", x.telling(5, 0), 0);
         DUE.is("telling(6, 9)", x.telling(6, 9), 1);
         for (int town : new int[] {-1, 10, MIN, MAX}) DUE.is("telling(7, " + town + ")", x.telling(7, town), -2);
@@ -92,7 +75,7 @@ public final class TellingsBoundsTest {
 
     private static void tellingTwelve() {
         DUE.by("12: TELLINGS (12 at most, numbered from 0); FULL");
-        ChalkStreet x = of(10);
+        ChalkStreet x = Scenes.ring(10);
         for (int i = 0; i < 12; i++) {
             DUE.is("the last but one", x.child(i - 1), i == 0 ? -2 : -1);
             DUE.is("not told yet", x.child(i), -2);
@@ -107,16 +90,16 @@ public final class TellingsBoundsTest {
 
     private static void tellingBadAheadOfFull() {
         DUE.by("12: BAD: YEAR, TOWN; FULL: the first that the words name");
-        refusedOfFull("telling(1000, 0)", x -> x.telling(1000, 0), -2);
-        refusedOfFull("telling(0, 10)", x -> x.telling(0, 10), -2);
-        refusedOfFull("telling(-1, -1)", x -> x.telling(-1, -1), -2);
-        refusedOfFull("telling(0, 0)", x -> x.telling(0, 0), -4);
-        refusedOfFull("telling(999, 9)", x -> x.telling(999, 9), -4);
+        REFUSED.ofFull("telling(1000, 0)", x -> x.telling(1000, 0), -2);
+        REFUSED.ofFull("telling(0, 10)", x -> x.telling(0, 10), -2);
+        REFUSED.ofFull("telling(-1, -1)", x -> x.telling(-1, -1), -2);
+        REFUSED.ofFull("telling(0, 0)", x -> x.telling(0, 0), -4);
+        REFUSED.ofFull("telling(999, 9)", x -> x.telling(999, 9), -4);
     }
 
     private static void tellingKeepsTheSet() {
         DUE.by("12: keep THE SET as it is then");
-        ChalkStreet x = of(10);
+        ChalkStreet x = Scenes.ring(10);
         x.square(0, 5, 9);
         x.square(9, 4, 8);
         x.steps(31);
@@ -137,17 +120,17 @@ public final class TellingsBoundsTest {
 
     private static void tellingRefused() {
         DUE.by("12: BAD; refusals change nothing");
-        refused("telling(-1, 0)", x -> x.telling(-1, 0), -2);
-        refused("telling(1000, 0)", x -> x.telling(1000, 0), -2);
-        refused("telling(0, -1)", x -> x.telling(0, -1), -2);
-        refused("telling(0, 10)", x -> x.telling(0, 10), -2);
+        REFUSED.ofSome("telling(-1, 0)", x -> x.telling(-1, 0), -2);
+        REFUSED.ofSome("telling(1000, 0)", x -> x.telling(1000, 0), -2);
+        REFUSED.ofSome("telling(0, -1)", x -> x.telling(0, -1), -2);
+        REFUSED.ofSome("telling(0, 10)", x -> x.telling(0, 10), -2);
     }
 
     // ---- 13
 
     private static void gapTellings() {
         DUE.by("13: a SQUARE is a GAP in a TELLING. BAD");
-        ChalkStreet x = of(4);
+        ChalkStreet x = Scenes.ring(4);
         DUE.is("none told", x.gap(0, 0), -2);
         for (int i = 0; i < 12; i++) {
             x.telling(0, 0);
@@ -161,7 +144,7 @@ public final class TellingsBoundsTest {
     private static void gapSquares() {
         DUE.by("13: how many it has");
         for (int n = 4; n <= 10; n++) {
-            ChalkStreet x = of(n);
+            ChalkStreet x = Scenes.ring(n);
             x.telling(0, 0);
             x.telling(0, 0);
             for (int s = n - 1; s >= 0; s--) DUE.is("gap(0, " + s + ") of " + n, x.gap(0, s), n - s);
@@ -174,7 +157,7 @@ public final class TellingsBoundsTest {
 
     private static void gapIsOne() {
         DUE.by("13: STATE: it is one");
-        ChalkStreet x = of(10);
+        ChalkStreet x = Scenes.ring(10);
         x.telling(0, 0);
         for (int s = 0; s < 10; s++) {
             DUE.is("it is none", x.gap(0, s), s + 1);
@@ -185,22 +168,22 @@ public final class TellingsBoundsTest {
 
     private static void gapRefused() {
         DUE.by("13: BAD; STATE; refusals change nothing");
-        refused("gap(-1, 0)", x -> x.gap(-1, 0), -2);
-        refused("gap(3, 0)", x -> x.gap(3, 0), -2);
-        refused("gap(0, -1)", x -> x.gap(0, -1), -2);
-        refused("gap(0, n)", x -> x.gap(0, x.count(0)), -2);
-        refused("gap(0, 32)", x -> x.gap(0, 32), -2);
-        refused("gap(0, 34)", x -> x.gap(0, 34), -2);
-        refused("gap(1, 3)", x -> x.gap(1, 3), -3);
-        refusedOfFull("gap(12, 0)", x -> x.gap(12, 0), -2);
-        refusedOfFull("gap(11, 2)", x -> x.gap(11, 2), -3);
+        REFUSED.ofSome("gap(-1, 0)", x -> x.gap(-1, 0), -2);
+        REFUSED.ofSome("gap(3, 0)", x -> x.gap(3, 0), -2);
+        REFUSED.ofSome("gap(0, -1)", x -> x.gap(0, -1), -2);
+        REFUSED.ofSome("gap(0, n)", x -> x.gap(0, x.count(0)), -2);
+        REFUSED.ofSome("gap(0, 32)", x -> x.gap(0, 32), -2);
+        REFUSED.ofSome("gap(0, 34)", x -> x.gap(0, 34), -2);
+        REFUSED.ofSome("gap(1, 3)", x -> x.gap(1, 3), -3);
+        REFUSED.ofFull("gap(12, 0)", x -> x.gap(12, 0), -2);
+        REFUSED.ofFull("gap(11, 2)", x -> x.gap(11, 2), -3);
     }
 
     // ---- 14
 
     private static void dateYears() {
         DUE.by("14: a TELLING is of another YEAR: what it was. BAD");
-        ChalkStreet x = of(4);
+        ChalkStreet x = Scenes.ring(4);
         DUE.is("none told", x.date(0, 0), -2);
         x.telling(500, 0);
         DUE.is("to the first", x.date(0, 0), 500);
@@ -216,11 +199,11 @@ public final class TellingsBoundsTest {
 
     private static void dateRefused() {
         DUE.by("14: BAD; refusals change nothing");
-        refused("date(-1, 0)", x -> x.date(-1, 0), -2);
-        refused("date(3, 0)", x -> x.date(3, 0), -2);
-        refused("date(0, -1)", x -> x.date(0, -1), -2);
-        refused("date(0, 1000)", x -> x.date(0, 1000), -2);
-        refusedOfFull("date(12, 0)", x -> x.date(12, 0), -2);
+        REFUSED.ofSome("date(-1, 0)", x -> x.date(-1, 0), -2);
+        REFUSED.ofSome("date(3, 0)", x -> x.date(3, 0), -2);
+        REFUSED.ofSome("date(0, -1)", x -> x.date(0, -1), -2);
+        REFUSED.ofSome("date(0, 1000)", x -> x.date(0, 1000), -2);
+        REFUSED.ofFull("date(12, 0)", x -> x.date(12, 0), -2);
     }
 
     // ---- 15
@@ -228,7 +211,7 @@ public final class TellingsBoundsTest {
     private static void takeGaps() {
         DUE.by("15: THE SET becomes that of a TELLING (GAPS are PLAIN, 0): how many GAPS");
         for (int n = 4; n <= 10; n++) {
-            ChalkStreet x = of(n);
+            ChalkStreet x = Scenes.ring(n);
             for (int s = 0; s < n; s++) x.square(s, 5, 9);
             x.steps(16);
             x.telling(0, 0);
@@ -247,12 +230,12 @@ public final class TellingsBoundsTest {
 
     private static void takeRefused() {
         DUE.by("15: BAD");
-        DUE.is("none told", of(4).take(0), -2);
-        refused("take(-1)", x -> x.take(-1), -2);
-        refused("take(3)", x -> x.take(3), -2);
-        refused("take(MIN)", x -> x.take(MIN), -2);
-        refused("take(MAX)", x -> x.take(MAX), -2);
-        refusedOfFull("take(12)", x -> x.take(12), -2);
+        DUE.is("none told", Scenes.ring(4).take(0), -2);
+        REFUSED.ofSome("take(-1)", x -> x.take(-1), -2);
+        REFUSED.ofSome("take(3)", x -> x.take(3), -2);
+        REFUSED.ofSome("take(MIN)", x -> x.take(MIN), -2);
+        REFUSED.ofSome("take(MAX)", x -> x.take(MAX), -2);
+        REFUSED.ofFull("take(12)", x -> x.take(12), -2);
     }
 
     // ---- 16
@@ -260,7 +243,7 @@ public final class TellingsBoundsTest {
     private static void changesNoneAndAll() {
         DUE.by("16: SQUARES of unlike KIND or NUMBER, and steps that are allowed in one alone");
         for (int n = 4; n <= 10; n++) {
-            ChalkStreet x = of(n);
+            ChalkStreet x = Scenes.ring(n);
             x.steps(10);
             x.telling(0, 0);
             x.telling(0, 0);
@@ -272,7 +255,7 @@ public final class TellingsBoundsTest {
             DUE.is("the other way", x.changes(2, 1), n + 5);
             DUE.is("itself", x.changes(2, 2), 0);
         }
-        ChalkStreet y = of(4);
+        ChalkStreet y = Scenes.ring(4);
         y.telling(0, 0);
         y.square(3, 5, 9);
         y.telling(0, 0);
@@ -284,7 +267,7 @@ public final class TellingsBoundsTest {
 
     private static void changesGaps() {
         DUE.by("16: none of them a GAP in either");
-        ChalkStreet x = of(10);
+        ChalkStreet x = Scenes.ring(10);
         x.telling(0, 0);
         for (int s = 0; s < 10; s++) x.square(s, 3, 1);
         x.steps(2);
@@ -300,13 +283,13 @@ public final class TellingsBoundsTest {
 
     private static void changesRefused() {
         DUE.by("16: BAD");
-        DUE.is("none told", of(4).changes(0, 0), -2);
-        refused("changes(-1, 0)", x -> x.changes(-1, 0), -2);
-        refused("changes(0, -1)", x -> x.changes(0, -1), -2);
-        refused("changes(3, 0)", x -> x.changes(3, 0), -2);
-        refused("changes(0, 3)", x -> x.changes(0, 3), -2);
-        refusedOfFull("changes(12, 11)", x -> x.changes(12, 11), -2);
-        refusedOfFull("changes(11, 12)", x -> x.changes(11, 12), -2);
+        DUE.is("none told", Scenes.ring(4).changes(0, 0), -2);
+        REFUSED.ofSome("changes(-1, 0)", x -> x.changes(-1, 0), -2);
+        REFUSED.ofSome("changes(0, -1)", x -> x.changes(0, -1), -2);
+        REFUSED.ofSome("changes(3, 0)", x -> x.changes(3, 0), -2);
+        REFUSED.ofSome("changes(0, 3)", x -> x.changes(0, 3), -2);
+        REFUSED.ofFull("changes(12, 11)", x -> x.changes(12, 11), -2);
+        REFUSED.ofFull("changes(11, 12)", x -> x.changes(11, 12), -2);
         ChalkStreet full = Scenes.full();
         DUE.is("the last of twelve by a GAP", full.changes(11, 10), 0);
     }
@@ -315,7 +298,7 @@ public final class TellingsBoundsTest {
 
     private static void childLesserYear() {
         DUE.by("17: the CHILD of that of a lesser YEAR; of none, if there is none such");
-        ChalkStreet x = of(4);
+        ChalkStreet x = Scenes.ring(4);
         x.telling(500, 0);
         x.telling(500, 0);
         DUE.is("of a like YEAR", x.child(1), -1);
@@ -333,7 +316,7 @@ public final class TellingsBoundsTest {
 
     private static void childLeastNumber() {
         DUE.by("17: with the fewest CHANGES, of like ones the least number");
-        ChalkStreet x = of(4);
+        ChalkStreet x = Scenes.ring(4);
         for (int i = 0; i < 11; i++) x.telling(i % 3, 0);
         x.square(0, 1, 0);
         x.telling(9, 0);
@@ -341,7 +324,7 @@ public final class TellingsBoundsTest {
         x.date(0, 9);
         DUE.is("of ten like ones", x.child(11), 1);
         x.square(1, 1, 0);
-        ChalkStreet y = of(4);
+        ChalkStreet y = Scenes.ring(4);
         y.telling(1, 0);
         y.square(0, 1, 0);
         y.telling(2, 0);
@@ -355,7 +338,7 @@ public final class TellingsBoundsTest {
 
     private static void childGaps() {
         DUE.by("17: CHANGES between two: none of them a GAP in either");
-        ChalkStreet x = of(4);
+        ChalkStreet x = Scenes.ring(4);
         x.telling(1, 0);
         x.square(0, 3, 3);
         x.telling(1, 0);
@@ -368,12 +351,12 @@ public final class TellingsBoundsTest {
 
     private static void childRefused() {
         DUE.by("17: BAD");
-        DUE.is("none told", of(4).child(0), -2);
-        refused("child(-1)", x -> x.child(-1), -2);
-        refused("child(3)", x -> x.child(3), -2);
-        refused("child(MIN)", x -> x.child(MIN), -2);
-        refused("child(MAX)", x -> x.child(MAX), -2);
-        refusedOfFull("child(12)", x -> x.child(12), -2);
+        DUE.is("none told", Scenes.ring(4).child(0), -2);
+        REFUSED.ofSome("child(-1)", x -> x.child(-1), -2);
+        REFUSED.ofSome("child(3)", x -> x.child(3), -2);
+        REFUSED.ofSome("child(MIN)", x -> x.child(MIN), -2);
+        REFUSED.ofSome("child(MAX)", x -> x.child(MAX), -2);
+        REFUSED.ofFull("child(12)", x -> x.child(12), -2);
     }
 
     // ---- 18
@@ -386,14 +369,14 @@ public final class TellingsBoundsTest {
 
     private static void treeNoneAndAll() {
         DUE.by("18: all CHANGES from CHILDREN to those they are of; how many are CHILDREN of none");
-        ChalkStreet x = of(10);
+        ChalkStreet x = Scenes.ring(10);
         treeOf("none told", x, 0, 0, 0);
         x.telling(0, 0);
         treeOf("one", x, 0, 0, 1);
         for (int i = 1; i < 12; i++) x.telling(0, i % 10);
         treeOf("twelve of one YEAR", x, 0, 0, 12);
         // Each differs by one square more from those ahead of it, and all of the first by five steps, too.
-        ChalkStreet y = of(10);
+        ChalkStreet y = Scenes.ring(10);
         y.steps(10);
         for (int i = 0; i < 11; i++) {
             y.telling(i, 0);
@@ -407,7 +390,7 @@ public final class TellingsBoundsTest {
 
     private static void treeMoved() {
         DUE.by("18: MOVED: CHILDREN of another TOWN than theirs");
-        ChalkStreet x = of(4);
+        ChalkStreet x = Scenes.ring(4);
         x.telling(0, 0);
         x.telling(0, 9);
         treeOf("two of none", x, 0, 0, 2);
@@ -419,10 +402,10 @@ public final class TellingsBoundsTest {
 
     private static void treeRefused() {
         DUE.by("18: BAD");
-        refusedOfBoth("tree(-1)", x -> x.tree(-1), -2);
-        refusedOfBoth("tree(3)", x -> x.tree(3), -2);
-        refused("tree(MIN)", x -> x.tree(MIN), -2);
-        refused("tree(MAX)", x -> x.tree(MAX), -2);
+        REFUSED.ofBoth("tree(-1)", x -> x.tree(-1), -2);
+        REFUSED.ofBoth("tree(3)", x -> x.tree(3), -2);
+        REFUSED.ofSome("tree(MIN)", x -> x.tree(MIN), -2);
+        REFUSED.ofSome("tree(MAX)", x -> x.tree(MAX), -2);
     }
 
     // ---- 19
@@ -430,7 +413,7 @@ public final class TellingsBoundsTest {
     private static void stoodKinds() {
         DUE.by("19: KINDS (bits) that MAY HAVE STOOD in a GAP");
         for (int kind = 0; kind < 6; kind++) {
-            ChalkStreet x = of(4);
+            ChalkStreet x = Scenes.ring(4);
             x.square(3, kind, 0);
             x.telling(1, 0);
             x.square(3, (kind + 1) % 6, 0);
@@ -446,7 +429,7 @@ public final class TellingsBoundsTest {
 
     private static void stoodNobody() {
         DUE.by("19: its CHILDREN (in which that SQUARE is no GAP)");
-        ChalkStreet x = of(4);
+        ChalkStreet x = Scenes.ring(4);
         x.telling(5, 0);
         x.gap(0, 0);
         x.gap(0, 3);
@@ -463,7 +446,7 @@ public final class TellingsBoundsTest {
 
     private static void stoodFewest() {
         DUE.by("19: for which the fewest of them have another KIND there");
-        ChalkStreet x = of(4);
+        ChalkStreet x = Scenes.ring(4);
         x.telling(1, 0);
         x.telling(2, 0);
         x.gap(1, 2);
@@ -484,16 +467,16 @@ public final class TellingsBoundsTest {
 
     private static void stoodRefused() {
         DUE.by("19: BAD: TELLING, SQUARE; STATE: it is none");
-        DUE.is("none told", of(4).stood(0, 0), -2);
-        refused("stood(-1, 0)", x -> x.stood(-1, 0), -2);
-        refused("stood(3, 0)", x -> x.stood(3, 0), -2);
-        refused("stood(1, -1)", x -> x.stood(1, -1), -2);
-        refused("stood(1, n)", x -> x.stood(1, x.count(0)), -2);
-        refused("stood(1, 35)", x -> x.stood(1, 35), -2);
-        refused("stood(1, 2)", x -> x.stood(1, 2), -3);
-        refused("stood(1, 4)", x -> x.stood(1, 4), -3);
-        refusedOfFull("stood(12, 2)", x -> x.stood(12, 2), -2);
-        refusedOfFull("stood(10, 2)", x -> x.stood(10, 2), -3);
+        DUE.is("none told", Scenes.ring(4).stood(0, 0), -2);
+        REFUSED.ofSome("stood(-1, 0)", x -> x.stood(-1, 0), -2);
+        REFUSED.ofSome("stood(3, 0)", x -> x.stood(3, 0), -2);
+        REFUSED.ofSome("stood(1, -1)", x -> x.stood(1, -1), -2);
+        REFUSED.ofSome("stood(1, n)", x -> x.stood(1, x.count(0)), -2);
+        REFUSED.ofSome("stood(1, 35)", x -> x.stood(1, 35), -2);
+        REFUSED.ofSome("stood(1, 2)", x -> x.stood(1, 2), -3);
+        REFUSED.ofSome("stood(1, 4)", x -> x.stood(1, 4), -3);
+        REFUSED.ofFull("stood(12, 2)", x -> x.stood(12, 2), -2);
+        REFUSED.ofFull("stood(10, 2)", x -> x.stood(10, 2), -3);
         DUE.is("it is one", Scenes.some().stood(1, 3) >= 0 ? 1 : 0, 1);
     }
 
@@ -506,7 +489,7 @@ public final class TellingsBoundsTest {
 
     /** Two TELLINGS of rings of so many squares. */
     private static ChalkStreet two(int n, int steps, int[] kinds, int otherSteps, int[] otherKinds) {
-        ChalkStreet x = of(n);
+        ChalkStreet x = Scenes.ring(n);
         take(x, steps, kinds);
         x.telling(0, 0);
         take(x, otherSteps, otherKinds);
@@ -546,7 +529,7 @@ public final class TellingsBoundsTest {
 
     /** All AGAIN but a PLAIN one; 0 is BACK by 1 in the second one, where the stone stays at 9 then. */
     private static ChalkStreet round(int plain) {
-        ChalkStreet x = of(10);
+        ChalkStreet x = Scenes.ring(10);
         for (int s = 0; s < 10; s++) x.square(s, s == plain ? 0 : 1, 0);
         x.telling(0, 0);
         x.square(0, 4, 1);
@@ -629,12 +612,12 @@ public final class TellingsBoundsTest {
 
     private static void quarrelRefused() {
         DUE.by("20: NO: no such TELLINGS");
-        DUE.is("none told", of(4).quarrel(0, 0), ChalkStreet.NO);
-        refused("quarrel(-1, 0)", x -> x.quarrel(-1, 0), ChalkStreet.NO);
-        refused("quarrel(0, -1)", x -> x.quarrel(0, -1), ChalkStreet.NO);
-        refused("quarrel(3, 0)", x -> x.quarrel(3, 0), ChalkStreet.NO);
-        refused("quarrel(0, 3)", x -> x.quarrel(0, 3), ChalkStreet.NO);
-        refusedOfFull("quarrel(12, 0)", x -> x.quarrel(12, 0), ChalkStreet.NO);
-        refusedOfFull("quarrel(0, 12)", x -> x.quarrel(0, 12), ChalkStreet.NO);
+        DUE.is("none told", Scenes.ring(4).quarrel(0, 0), ChalkStreet.NO);
+        REFUSED.ofSome("quarrel(-1, 0)", x -> x.quarrel(-1, 0), ChalkStreet.NO);
+        REFUSED.ofSome("quarrel(0, -1)", x -> x.quarrel(0, -1), ChalkStreet.NO);
+        REFUSED.ofSome("quarrel(3, 0)", x -> x.quarrel(3, 0), ChalkStreet.NO);
+        REFUSED.ofSome("quarrel(0, 3)", x -> x.quarrel(0, 3), ChalkStreet.NO);
+        REFUSED.ofFull("quarrel(12, 0)", x -> x.quarrel(12, 0), ChalkStreet.NO);
+        REFUSED.ofFull("quarrel(0, 12)", x -> x.quarrel(0, 12), ChalkStreet.NO);
     }
 }

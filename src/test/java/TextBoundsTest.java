@@ -1,8 +1,7 @@
-import java.util.function.ToLongFunction;
-
 /** Promises 21 and 22: each sentence that names a bound of THE TAPE or of a TEXT, just inside it and just outside. */
 public final class TextBoundsTest {
     private static final Due DUE = new Due("TextBoundsTest");
+    private static final Refused REFUSED = new Refused(DUE);
     private static final int MIN = Integer.MIN_VALUE, MAX = Integer.MAX_VALUE;
 
     public static void main(String[] args) {
@@ -28,15 +27,8 @@ public final class TextBoundsTest {
         tooEarly();
         notBehindIt();
         firstOfMany();
+        DUE.covers(21, 22);
         DUE.end();
-    }
-
-    private static void refused(String call, ToLongFunction<ChalkStreet> refused, long want) {
-        Everything.refused(DUE, Scenes::some, call, refused, want);
-    }
-
-    private static void refusedOfFull(String call, ToLongFunction<ChalkStreet> refused, long want) {
-        Everything.refused(DUE, Scenes::full, call + " of a full one", refused, want);
     }
 
     private static String times(String part, int many) {
@@ -124,12 +116,12 @@ public final class TextBoundsTest {
 
     private static void feedRefused() {
         DUE.by("21: BAD; FULL; refusals change nothing");
-        refused("feed(0, 0)", x -> x.feed(0, 0x61), -2);
-        refused("feed(9, 0)", x -> x.feed(9, 0x61), -2);
-        refused("feed(-1, 0)", x -> x.feed(-1, 0x61), -2);
-        refusedOfFull("feed(1, 0)", x -> x.feed(1, 0), -4);
-        refusedOfFull("feed(8, 0)", x -> x.feed(8, 0), -4);
-        refusedOfFull("feed(9, 0)", x -> x.feed(9, 0), -2);
+        REFUSED.ofSome("feed(0, 0)", x -> x.feed(0, 0x61), -2);
+        REFUSED.ofSome("feed(9, 0)", x -> x.feed(9, 0x61), -2);
+        REFUSED.ofSome("feed(-1, 0)", x -> x.feed(-1, 0x61), -2);
+        REFUSED.ofFull("feed(1, 0)", x -> x.feed(1, 0), -4);
+        REFUSED.ofFull("feed(8, 0)", x -> x.feed(8, 0), -4);
+        REFUSED.ofFull("feed(9, 0)", x -> x.feed(9, 0), -2);
         ChalkStreet x = new ChalkStreet(0);
         Scenes.write(x, "take 1" + times("+1", 72) + ";keep 1;");
         x.feed(8, -1);
@@ -201,7 +193,7 @@ public final class TextBoundsTest {
 
     private static void textRefused() {
         DUE.by("22: FULL; refusals change nothing");
-        refusedOfFull("text()", x -> x.text(), -4);
+        REFUSED.ofFull("text()", x -> x.text(), -4);
         ChalkStreet x = Scenes.some();
         DUE.is("a FAULT", x.text(), -107);
         DUE.is("THE RULE stays", x.count(5), 1);
