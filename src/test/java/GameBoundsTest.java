@@ -526,6 +526,10 @@ public final class GameBoundsTest {
         mendIs("BACK by 0 at 0 and 5", y, 1, 2, -1);
         for (int s = 0; s < 10; s++) y.square(s, s % 5 == 0 ? 4 : 0, 1);
         mendIs("BACK by 1 at 0 and 5", y, 2, 0, 52);
+        ChalkStreet z = allOf(10, 0);
+        mendIs("all PLAIN", z, 1, 2, -1);
+        for (int s = 0; s < 10; s++) z.square(s, 3, 0);
+        mendIs("all HOME", z, 0, -1, -1);
     }
 
     private static void mendOfLikeOnes() {

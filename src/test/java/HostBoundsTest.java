@@ -10,6 +10,7 @@ public final class HostBoundsTest {
         sheetSizes();
         sheetMissing();
         sheetAnew();
+        sheetAlone();
         sheetRefused();
         cellPlaces();
         cellBytes();
@@ -129,6 +130,26 @@ public final class HostBoundsTest {
             items("all 0 behind", x, 1, sort, 20, 0, 0, 0, 0, 0, 0, 0, 0, 0, 0);
             items("all 0 ahead", x, 1, sort, 0, 0, 0, 0, 0, 0, 0, 0, 0, 0, 0);
             DUE.is("one beside it is missing", x.cell(0, 0, 0), -11);
+        }
+    }
+
+    private static void sheetAlone() {
+        DUE.by("31: a SHEET becomes a row of n, no other one does");
+        for (int sheet = 0; sheet < 4; sheet++) {
+            for (int sort = -1; sort < 3; sort++) {
+                ChalkStreet x = Scenes.ring(10);
+                for (int o = 0; o < 4; o++) {
+                    x.sheet(o, o % 3, 40);
+                    for (int i = 0; i < 40; i++) x.cell(o, i, o + 1);
+                }
+                x.sheet(sheet, sort, 40);
+                for (int o = 0; o < 4; o++) {
+                    int both = 11 * (o + 1);
+                    if (o == sheet) continue;
+                    items("the first ones of " + o, x, o, o % 3, 0, both, both);
+                    items("the last ones of " + o, x, o, o % 3, 36, both, both);
+                }
+            }
         }
     }
 

@@ -233,6 +233,15 @@ public final class ModelTest {
         }
     }
 
+    /** A SHEET is made anew; those beside it are read then. */
+    private void anew(int sheet, int sort, int size) {
+        is("sheet(" + sheet + ", " + sort + ", " + size + ")", x.sheet(sheet, sort, size), model.sheet(sheet, sort, size));
+        for (int o = 0; o < 4; o++) {
+            is("squares(" + o + ", " + o % 3 + ", 0, 5)", x.squares(o, o % 3, 0, 5), model.squares(o, o % 3, 0, 5));
+            for (int s = 0; s < 4; s++) is("squareTold(" + s + ", 0)", x.squareTold(s, 0), model.squareTold(s, 0));
+        }
+    }
+
     private void host() {
         int s = near(0, 3);
         int o = any(2) == 0 ? near(0, 3) : any(2) == 0 ? s : 3 - s;
@@ -245,7 +254,7 @@ public final class ModelTest {
         int k = near(0, 5);
         int square = near(0, model.n - 1);
         switch (any(8)) {
-            case 0: if (any(3) == 0) is("sheet(" + s + ", " + sort + ", " + size + ")", x.sheet(s, sort, size), model.sheet(s, sort, size)); break;
+            case 0: if (any(3) == 0) anew(s, sort, size); break;
             case 1:
             case 2:
             case 3: is("cell(" + s + ", " + i + ", " + v + ")", x.cell(s, i, v), model.cell(s, i, v)); break;
