@@ -526,6 +526,18 @@ public final class GameBoundsTest {
         mendIs("BACK by 0 at 0 and 5", y, 1, 2, -1);
         for (int s = 0; s < 10; s++) y.square(s, s % 5 == 0 ? 4 : 0, 1);
         mendIs("BACK by 1 at 0 and 5", y, 2, 0, 52);
+        // A NUMBER alone is another one, whatever the KIND beside it is.
+        ChalkStreet v = Scenes.ring(10);
+        for (int before = 0; before < 10; before++) {
+            for (int number = 0; number < 10; number++) {
+                v.square(9, 4, before);
+                v.mend(-1);
+                v.square(9, 4, number);
+                ChalkStreet fresh = Scenes.ring(10);
+                fresh.square(9, 4, number);
+                DUE.is("BACK by " + number + ", by " + before + " ahead", v.mend(0), fresh.mend(0));
+            }
+        }
         ChalkStreet z = allOf(10, 0);
         mendIs("all PLAIN", z, 1, 2, -1);
         for (int s = 0; s < 10; s++) z.square(s, 3, 0);
